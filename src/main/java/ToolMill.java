@@ -647,13 +647,15 @@ public final class ToolMill {
 
     /** Whether a sign may stand inside a word of assembly. */
     private static boolean isWordSign(int sign) {
-        return isSmallLetter(sign) || isDigit(sign) || sign == '_' || sign == '.';
+        return sign >= 'a' && sign <= 'z' || sign >= '0' && sign <= '9' || sign == '_' || sign == '.';
     }
 
     /** Words by number, each with what the one at work knows of it; the toolchain's own words stay for good. */
     static final class Names {
-        private static final int MOST = 5000;
+        private static final int MOST = 4000;
         private static final int SLOTS = 8192;
+        private static final long SPREAD = 0x9E3779B97F4A7C15L;
+        private static final long SPREAD_MORE = 0xC2B2AE3D27D4EB4FL;
         final long[] first = new long[MOST];
         final long[] second = new long[MOST];
         /** The label or declaration of that name, or NONE. */
@@ -708,33 +710,28 @@ public final class ToolMill {
             }
         }
 
-        /** The slot where a word is, or where it would go. */
-        private int slotFor(long a, long b) {
-            long mixed = a * 0x9E3779B97F4A7C15L + b * 0xC2B2AE3D27D4EB4FL;
-            int slot = (int) (mixed >>> 40) & SLOTS - 1;
-            for (int i = 0; i < SLOTS; i++) {
+        /** A word's number, or NONE. */
+        int find(long a, long b) {
+            int slot = (int) (a * SPREAD + b * SPREAD_MORE >>> 40) & SLOTS - 1;
+            for (int i = 0; i < SLOTS && slots[slot] != 0; i++) {
                 int id = slots[slot] - 1;
-                if (id < 0 || first[id] == a && second[id] == b) {
-                    return slot;
+                if (first[id] == a && second[id] == b) {
+                    return id;
                 }
                 slot = slot + 1 & SLOTS - 1;
             }
-            return slot;
+            return NONE;
         }
 
-        /** A word's number, or NONE. */
-        int find(long a, long b) {
-            return slots[slotFor(a, b)] - 1;
-        }
-
-        /** A word's number, a new one if it has none; NONE only if there is no room, which the limits of texts leave. */
+        /** A word's number, a new one if it has none; NONE only without room, which the limits of texts leave. */
         int numberOf(long a, long b) {
-            int slot = slotFor(a, b);
-            if (slots[slot] != 0) {
-                return slots[slot] - 1;
+            int found = find(a, b);
+            if (found != NONE || count >= MOST) {
+                return found;
             }
-            if (count >= MOST) {
-                return NONE;
+            int slot = (int) (a * SPREAD + b * SPREAD_MORE >>> 40) & SLOTS - 1;
+            for (int i = 0; i < SLOTS && slots[slot] != 0; i++) {
+                slot = slot + 1 & SLOTS - 1;
             }
             first[count] = a;
             second[count] = b;
@@ -1037,13 +1034,14 @@ public final class ToolMill {
         private int wrongAt;
         private int twiceAt;
         private int muchAt;
-        final int[] uses = new int[MOST_SIGNS * USE_ROW];
+        /** A name and what parts it from the next one are two signs. */
+        final int[] uses = new int[(MOST_SIGNS / 2 + 1) * USE_ROW];
         int useCount;
-        private final int[] locals = new int[MOST_SIGNS * LOCAL_ROW];
+        private final int[] locals = new int[MOST_SIGNS / 4 * LOCAL_ROW];
         private int localCount;
         private int procedure;
         /** Of each label of a statement: the item behind it. */
-        final int[] labels = new int[MOST_SIGNS];
+        final int[] labels = new int[MOST_SIGNS / 4];
         int labelCount;
 
         Reader(Names names) {
@@ -1064,7 +1062,16 @@ public final class ToolMill {
             labelCount = 0;
             split(text, size);
             for (int i = 0; i <= size && kind() != END; i++) {
-                declaration();
+                int kind = kind();
+                pass();
+                if (kind == VAR) {
+                    variable(false);
+                } else if (kind == PROC) {
+                    procedure();
+                } else {
+                    at--;
+                    wrong();
+                }
             }
             judge();
         }
@@ -1200,7 +1207,7 @@ public final class ToolMill {
 
         private void wrong() {
             if (wrongAt == NONE) {
-                wrongAt = place();
+                wrongAt = tokens[at * TOKEN_ROW + TOKEN_PLACE];
             }
         }
 
@@ -1224,7 +1231,11 @@ public final class ToolMill {
         }
 
         private void leave(int sign) {
-            expect(sign);
+            if (kind() == sign) {
+                at++;
+            } else {
+                wrong();
+            }
             open--;
         }
 
@@ -1241,18 +1252,6 @@ public final class ToolMill {
         }
 
         // Declarations
-
-        private void declaration() {
-            if (kind() == VAR) {
-                pass();
-                variable(false);
-            } else if (kind() == PROC) {
-                pass();
-                procedure();
-            } else {
-                wrong();
-            }
-        }
 
         /** A variable or array, behind its var. */
         private void variable(boolean local) {
@@ -2461,6 +2460,7 @@ public final class ToolMill {
                 kinds[i] = q - p > WORD_SIGNS ? BAD : NAME;
                 firsts[i] = Names.pack(line, p, q);
                 seconds[i] = Names.pack(line, p + 8, q);
+                numbers[i] = names.find(firsts[i], seconds[i]);
                 return q;
             }
             if (sign == '$') {
@@ -2540,7 +2540,8 @@ public final class ToolMill {
             return kinds[at] == DIGITS && firsts[at] == 1;
         }
 
-        int digit() {
+        /** The digit, or the number that the word has in names, or NONE. */
+        int number() {
             return numbers[at];
         }
 
@@ -2563,6 +2564,7 @@ public final class ToolMill {
             }
         }
 
+        /** Of the faults of a line the least kind counts, so the first kind is set without asking. */
         void meet(int kind) {
             if (kind != 0 && (worst == 0 || kind < worst)) {
                 worst = kind;
@@ -2573,19 +2575,19 @@ public final class ToolMill {
             if (kinds[at] == sign) {
                 at++;
             } else {
-                meet(MALFORMED);
+                worst = MALFORMED;
             }
         }
 
         void close() {
             if (kinds[at] != END) {
-                meet(MALFORMED);
+                worst = MALFORMED;
             }
         }
 
         int reg(int shift) {
             if (kinds[at] != REGISTER) {
-                meet(MALFORMED);
+                worst = MALFORMED;
                 return 0;
             }
             at++;
@@ -2605,18 +2607,17 @@ public final class ToolMill {
             at += minus ? 1 : 0;
             for (int i = 0; i <= size; i++) {
                 int kind = kinds[at];
-                int id = kind == NAME ? names.find(firsts[at], seconds[at]) : NONE;
                 int number = numbers[at];
-                if (id >= 0 && (names.mark[id] & IS_CONSTANT) != 0) {
+                if (kind == NAME && number >= 0 && (names.mark[number] & IS_CONSTANT) != 0) {
                     kind = DIGITS;
-                    number = names.value[id];
+                    number = names.value[number];
                 }
                 if (kind == DIGITS) {
                     sum += minus ? -number : number;
                 } else if (kind >= NAME && kind <= AHEAD && !minus && label == NONE) {
                     label = at;
                 } else {
-                    meet(MALFORMED);
+                    worst = MALFORMED;
                     return;
                 }
                 at++;
@@ -2632,7 +2633,7 @@ public final class ToolMill {
         int whole(int low, int high) {
             value();
             if (label != NONE) {
-                meet(MALFORMED);
+                worst = MALFORMED;
             } else if (sum < low || sum > high) {
                 meet(OUTSIDE);
             }
@@ -2648,7 +2649,7 @@ public final class ToolMill {
         void target() {
             value();
             if (label == NONE) {
-                meet(MALFORMED);
+                worst = MALFORMED;
             }
         }
 
@@ -2701,7 +2702,7 @@ public final class ToolMill {
         private final int[] waiting = new int[10];
         private final int[] digitSections = new int[10];
         private final int[] digitPlaces = new int[10];
-        /** By use: the use that waits for the same digit ahead of it, or the number of its name. */
+        /** By use: the use ahead of it that waits for the same digit, or NONE. */
         private final int[] chain = new int[MOST_USES];
         /** By section: the instruction that may go into a slot, or NONE; its use; the place of the latest label. */
         private final int[] lastPlaces = new int[MOST_SECTIONS];
@@ -2778,7 +2779,7 @@ public final class ToolMill {
                 return MALFORMED;
             }
             int macro = lines.macroNamed(scan.first(), scan.second());
-            int operation = names.find(scan.first(), scan.second());
+            int operation = scan.number();
             if (macro != NONE) {
                 return lines.call(macro, scan.behind());
             }
@@ -2787,6 +2788,8 @@ public final class ToolMill {
             }
             if (operation < TEXT) {
                 instruction(operation);
+            } else if (operation == MACRO) {
+                macroLine();
             } else if (operation < IF) {
                 directive(operation);
             } else {
@@ -2802,7 +2805,7 @@ public final class ToolMill {
             if (scan.kind() == Scanner.NAME) {
                 wordLabel();
             } else if (scan.isOneDigit()) {
-                digitLabel(scan.digit(), place);
+                digitLabel(scan.number(), place);
             } else {
                 scan.meet(MALFORMED);
             }
@@ -2859,6 +2862,8 @@ public final class ToolMill {
                     sort = SORT_LO;
                 }
                 emit(operation, word, sort);
+            } else if (operation == LI) {
+                emitNumber(word, scan.sum);
             } else {
                 emitOther(operation, word);
             }
@@ -2985,9 +2990,6 @@ public final class ToolMill {
                 case NEG:
                     emit(SUBU, BASES[SUBU] | word, NONE);
                     break;
-                case LI:
-                    emitNumber(word, scan.sum);
-                    break;
                 case LA:
                     emit(LUI, BASES[LUI] | word, SORT_HI);
                     emit(ADDIU, BASES[ADDIU] | word | word << S_SHIFT - T_SHIFT, SORT_LO);
@@ -3079,7 +3081,6 @@ public final class ToolMill {
             if (scan.labelKind() == Scanner.NAME) {
                 unit.useNames[2 * use] = scan.labelFirst();
                 unit.useNames[2 * use + 1] = scan.labelSecond();
-                chain[use] = names.numberOf(scan.labelFirst(), scan.labelSecond());
             } else if (scan.labelKind() == Scanner.AHEAD) {
                 unit.uses[row + Unit.TARGET] = WAITS;
                 chain[use] = waiting[digit];
@@ -3304,10 +3305,6 @@ public final class ToolMill {
                 return;
             }
             scan.pass();
-            if (operation == MACRO) {
-                macroLine();
-                return;
-            }
             int number = 0;
             if (operation == IF) {
                 number = scan.whole(Integer.MIN_VALUE, Integer.MAX_VALUE);
@@ -3368,6 +3365,7 @@ public final class ToolMill {
         }
 
         private void macroLine() {
+            scan.pass();
             long first = scan.first();
             long second = scan.second();
             scan.expect(Scanner.NAME);
@@ -3421,7 +3419,7 @@ public final class ToolMill {
             for (int use = 0; use < unit.useCount; use++) {
                 int row = use * Unit.USE_ROW;
                 if (unit.uses[row + Unit.TARGET] == NONE) {
-                    aimAtName(use, chain[use]);
+                    aimAtName(use);
                 }
                 int target = unit.uses[row + Unit.TARGET];
                 boolean near = unit.uses[row + Unit.SORT] == SORT_BRANCH && target == unit.uses[row + Unit.USE_SECTION];
@@ -3446,7 +3444,8 @@ public final class ToolMill {
             }
         }
 
-        private void aimAtName(int use, int id) {
+        private void aimAtName(int use) {
+            int id = names.find(unit.useNames[2 * use], unit.useNames[2 * use + 1]);
             int label = id < 0 ? NONE : names.owner[id];
             if (label < 0) {
                 return;
@@ -3958,7 +3957,7 @@ public final class ToolMill {
             number = 0;
             outputCount = 0;
             taken = 0;
-            Arrays.fill(memory, 0);
+            Arrays.fill(memory, 0, size / 4, 0);
             Arrays.fill(registers, 0);
             registers[SP] = base + size;
             registers[GP] = imageEnd;
@@ -4256,9 +4255,12 @@ public final class ToolMill {
         private static final int UNDER_WAY = -1;
         private static final int MOST_CALLS = 40;
         private static final int TEMPORARIES = 8;
-        private static final int FRAME = TEMPORARIES + 4 + 400;
+        private static final int MOST_OWN = 4 + 400;
+        private static final int CALLER_UNIT = TEMPORARIES + MOST_OWN;
+        private static final int CALLER_ITEM = CALLER_UNIT + 1;
+        private static final int CALLER_DEPTH = CALLER_UNIT + 2;
+        private static final int FRAME = CALLER_UNIT + 3;
         private static final int NAME_ROW = 2 * MOST_NAMES;
-        private static final int RETURN_ROW = 3;
         /** Far above what so many steps can need: an item has at least a sign of its text. */
         private static final int MOST_ITEMS_DONE = 200000000;
 
@@ -4278,9 +4280,8 @@ public final class ToolMill {
         private final int[] globals = new int[MOST_UNITS * MOST_BYTES / 4];
         private int globalCount;
         private int main;
-        /** Of each call its temporaries, parameters and locals. */
+        /** Of each call its temporaries, its parameters and locals, and where it comes from. */
         private final int[] frames = new int[MOST_CALLS * FRAME];
-        private final int[] returns = new int[MOST_CALLS * RETURN_ROW];
         private int calls;
         private int unit;
         private int at;
@@ -4384,13 +4385,14 @@ public final class ToolMill {
             int row = declaration % Draft.MOST_DECLARED * Draft.ROW;
             int parameters = draft.declared[row + Draft.KIND_TOLD] - 3;
             int base = calls * FRAME;
-            Arrays.fill(frames, base, base + FRAME, 0);
+            int words = Math.min(parameters + draft.declared[row + Draft.LOCALS], MOST_OWN);
+            Arrays.fill(frames, base + TEMPORARIES, base + TEMPORARIES + words, 0);
             for (int j = 0; j < parameters && calls > 0; j++) {
                 frames[base + TEMPORARIES + j] = frames[base - FRAME + depth + j];
             }
-            returns[calls * RETURN_ROW] = unit;
-            returns[calls * RETURN_ROW + 1] = at;
-            returns[calls * RETURN_ROW + 2] = depth;
+            frames[base + CALLER_UNIT] = unit;
+            frames[base + CALLER_ITEM] = at;
+            frames[base + CALLER_DEPTH] = depth;
             calls++;
             deepest = Math.max(deepest, calls);
             unit = declaration / Draft.MOST_DECLARED;
@@ -4403,9 +4405,10 @@ public final class ToolMill {
                 finish(1, value);
                 return;
             }
-            unit = returns[calls * RETURN_ROW];
-            at = returns[calls * RETURN_ROW + 1];
-            frames[(calls - 1) * FRAME + returns[calls * RETURN_ROW + 2]] = value;
+            int base = calls * FRAME;
+            unit = frames[base + CALLER_UNIT];
+            at = frames[base + CALLER_ITEM];
+            frames[base - FRAME + frames[base + CALLER_DEPTH]] = value;
         }
 
         private void perform(int packed, int operand) {
