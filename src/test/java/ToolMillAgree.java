@@ -2,8 +2,6 @@ import java.util.Random;
 
 /** Programs made by chance (always the same ones): the machine must do what the meaning says. */
 public final class ToolMillAgree {
-    private static int wrong = 0;
-
     private final Random random;
     private final StringBuilder text = new StringBuilder();
     /** Variables that may be used where the program is written. */
@@ -81,18 +79,8 @@ public final class ToolMillAgree {
         text.append("return ").append(expression(2, 0)).append(";}");
     }
 
-    private static void put(ToolMill mill, String text) {
-        mill.end(0);
-        for (int i = 0; i < text.length(); i++) {
-            mill.put(text.charAt(i));
-        }
-    }
-
     private static void due(int seed, String what, long got, long want) {
-        if (got != want) {
-            wrong++;
-            System.out.println("program " + seed + ": " + what + " is " + got + ", due is " + want);
-        }
+        Due.same("program " + seed + ": " + what, Long.toString(got), Long.toString(want));
     }
 
     private static boolean program(int seed) {
@@ -112,13 +100,11 @@ public final class ToolMillAgree {
             return false;
         }
         ToolMill mill = new ToolMill();
-        put(mill, first);
-        if (mill.source() == ToolMill.NONE) {
+        if (Due.source(mill, first) == ToolMill.NONE) {
             due(seed, "fault(0) of the first unit", mill.fault(0), 4);
             return false;
         }
-        put(mill, second);
-        if (mill.source() == ToolMill.NONE) {
+        if (Due.source(mill, second) == ToolMill.NONE) {
             due(seed, "fault(0) of the second unit", mill.fault(0), 4);
             return false;
         }
@@ -155,13 +141,7 @@ public final class ToolMillAgree {
         for (int seed = 0; seed < 1500; seed++) {
             ended += program(seed) ? 1 : 0;
         }
-        System.out.println(ended + " programs ended by themselves");
-        if (ended < 100) {
-            wrong++;
-        }
-        System.out.println(wrong == 0 ? "machine and meaning agree" : wrong + " answers are not as due");
-        if (wrong != 0) {
-            System.exit(1);
-        }
+        Due.same("more than 100 programs end by themselves", Boolean.toString(ended > 100), "true");
+        Due.finish("ToolMillAgree");
     }
 }
