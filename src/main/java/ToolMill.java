@@ -236,7 +236,6 @@ public final class ToolMill {
     private boolean hasMeaning;
     private final Codes codes;
     private final Reader reader;
-    private final Typist typist;
     private final Assembler assembler;
     private final Linker linker;
     private final Machine machine;
@@ -246,7 +245,6 @@ public final class ToolMill {
         Names names = new Names();
         codes = new Codes(names);
         reader = new Reader(names);
-        typist = new Typist();
         assembler = new Assembler(names);
         machine = new Machine(codes);
         linker = new Linker(names, machine);
@@ -298,7 +296,7 @@ public final class ToolMill {
         int kind = reader.faultKind;
         int place = reader.faultPlace;
         if (kind == 0) {
-            typist.type(reader, draft);
+            draft.type(reader);
             if (draft.typedSize > MOST_TYPED || !assembler.make(unit, draft.typed, draft.typedSize)) {
                 kind = 4;
                 place = signs;
@@ -918,7 +916,9 @@ public final class ToolMill {
             }
             int row = section * SECTION_ROW;
             int end = sections[row + START] + sections[row + SIZE];
-            System.arraycopy(bytes, end, bytes, end + more, byteCount - end);
+            for (int k = byteCount - 1; k >= end; k--) {
+                bytes[k + more] = bytes[k];
+            }
             Arrays.fill(bytes, end, end + more, (byte) 0);
             for (int i = section + 1; i < sectionCount; i++) {
                 sections[i * SECTION_ROW + START] += more;
@@ -946,7 +946,7 @@ public final class ToolMill {
         }
     }
 
-    /** What a unit in the language says: its names, its items in order, and its assembly. */
+    /** What a unit in the language says: its names and its items in order; it types itself out as assembly. */
     static final class Draft {
         static final int MOST_DECLARED = 512;
         static final int MOST_ITEMS = 3200;
@@ -969,6 +969,14 @@ public final class ToolMill {
         final int[] outerKinds = new int[MOST_NAMES];
         final long[] outerNames = new long[MOST_NAMES];
         int outerCount;
+        private Reader reader;
+        private int depth;
+        private long name;
+        /** Labels that are no statement's, so far: a statement's label has these ahead of it. */
+        private int extra;
+        private int endLabel;
+        /** Where the saved words of the procedure at hand begin in its frame. */
+        private int saved;
 
         void clear() {
             typedSize = 0;
@@ -982,6 +990,270 @@ public final class ToolMill {
                 items[2 * itemCount] = item | depth << ITEM_BITS;
                 items[2 * itemCount + 1] = operand;
                 itemCount++;
+            }
+        }
+
+        // The assembly
+
+        /** Types the items out as assembly, and settles what they point to. */
+        void type(Reader from) {
+            reader = from;
+            typedSize = 0;
+            extra = 0;
+            for (int i = 0; i < itemCount; i++) {
+                int item = items[2 * i] & (1 << ITEM_BITS) - 1;
+                depth = items[2 * i] >> ITEM_BITS;
+                int operand = items[2 * i + 1];
+                if (item <= ITEM_CLOSE) {
+                    declaration(item, operand);
+                } else if (item >= ITEM_GET && item <= ITEM_SEND || item == ITEM_SET || item == ITEM_STORE) {
+                    items[2 * i + 1] = use(item, operand);
+                } else if (item >= ITEM_UNLESS && item <= ITEM_LABEL) {
+                    turn(item, operand);
+                    items[2 * i + 1] = reader.labels[operand];
+                } else if (item >= ITEM_ADD && item <= ITEM_MOST) {
+                    two(item);
+                } else {
+                    single(item, operand);
+                }
+            }
+            for (int i = 0; i < outerCount; i++) {
+                name = outerNames[i];
+                say(".want ?,#\n", outerKinds[i]);
+            }
+        }
+
+        /** @ is the register of the depth, ~ the next one, ? the name, # the number. */
+        private void say(String pattern, int number) {
+            for (int i = 0; i < pattern.length(); i++) {
+                char sign = pattern.charAt(i);
+                if (sign == '@' || sign == '~') {
+                    sign('$');
+                    sign('t');
+                    digits(sign == '@' ? depth : depth + 1);
+                } else if (sign == '?') {
+                    for (int k = 0; k < 8 && (name >>> 8 * k & 255) != 0; k++) {
+                        sign((int) (name >>> 8 * k) & 255);
+                    }
+                } else if (sign == '#') {
+                    digits(number);
+                } else {
+                    sign(sign);
+                }
+            }
+        }
+
+        private void digits(int number) {
+            int unit = 1;
+            while (unit <= 100000000 && number / unit >= 10) {
+                unit *= 10;
+            }
+            for (; unit > 0; unit /= 10) {
+                sign('0' + number / unit % 10);
+            }
+        }
+
+        private void sign(int sign) {
+            if (typedSize < typed.length) {
+                typed[typedSize] = (byte) sign;
+            }
+            typedSize++;
+        }
+
+        private void declaration(int item, int number) {
+            int row = number * Draft.ROW;
+            int words = declared[row + Draft.WORDS];
+            name = declaredNames[number];
+            if (item == ITEM_VARIABLE) {
+                say(".data ?\n.globl ?\n.kind ?,1\n?: .word 0\n", 0);
+            } else if (item == ITEM_ARRAY) {
+                say(".data ?\n.word #\n.globl ?\n.kind ?,2\n?: .space ", words);
+                say("#\n", 4 * words);
+            } else if (item == ITEM_PROCEDURE) {
+                opening(row);
+            } else {
+                int frame = frameOf(row);
+                say("move $v0,$zero\n_#:\n", endLabel);
+                say("lw $ra,#($sp)\n", frame - 4);
+                say("addiu $sp,$sp,#\njr $ra\n", frame);
+            }
+        }
+
+        private int frameOf(int row) {
+            int parameters = declared[row + Draft.KIND_TOLD] - 3;
+            return 4 * (parameters + declared[row + Draft.LOCALS] + declared[row + Draft.SAVED] + 1);
+        }
+
+        private void opening(int row) {
+            int parameters = declared[row + Draft.KIND_TOLD] - 3;
+            int locals = declared[row + Draft.LOCALS];
+            int frame = frameOf(row);
+            saved = 4 * (parameters + locals);
+            say(".text ?\n.globl ?\n.kind ?,#\n?:\n", 3 + parameters);
+            endLabel = declared[row + Draft.LABELS] + extra;
+            extra++;
+            say("addiu $sp,$sp,-#\nslt $at,$sp,$gp\nbnez $at,_room\n", frame);
+            say("sw $ra,#($sp)\n", frame - 4);
+            for (int j = 0; j < parameters; j++) {
+                say("sw $a#,", j);
+                say("#($sp)\n", 4 * j);
+            }
+            if (locals > 0) {
+                say("addiu $v1,$sp,#\n", 4 * parameters);
+                say("addiu $at,$sp,#\n", saved);
+                say("_#:\nsw $zero,0($v1)\naddiu $v1,$v1,4\nbne $v1,$at,_#\n", declared[row + Draft.LABELS] + extra);
+                extra++;
+            }
+        }
+
+        /** An item that names something: its text, and what the meaning has for its operand. */
+        private int use(int item, int use) {
+            int row = use * Reader.USE_ROW;
+            int offset = reader.uses[row + Reader.USE_OFFSET];
+            if (offset >= 0) {
+                int words = reader.uses[row + Reader.USE_WORDS];
+                local(item, 4 * offset, words);
+                return item == ITEM_CHECK ? words : offset;
+            }
+            int target = reader.uses[row + Reader.USE_TARGET];
+            name = target < MOST_NAMES ? declaredNames[target] : outerNames[target - MOST_NAMES];
+            if (item == ITEM_CALL || item == ITEM_SEND) {
+                call(item, reader.uses[row + Reader.USE_KIND] - 3);
+            } else {
+                global(item);
+            }
+            return -1 - target;
+        }
+
+        private void local(int item, int offset, int words) {
+            if (item == ITEM_GET) {
+                say("lw @,#($sp)\n", offset);
+            } else if (item == ITEM_SET) {
+                say("sw $t0,#($sp)\n", offset);
+            } else if (item == ITEM_CHECK) {
+                say("sltiu $at,@,#\nbeqz $at,_index\nsll @,@,2\naddu @,@,$sp\n", words);
+            } else if (item == ITEM_FETCH) {
+                say("lw @,#(@)\n", offset);
+            } else {
+                say("sw $t1,#($t0)\n", offset);
+            }
+        }
+
+        private void global(int item) {
+            if (item == ITEM_GET) {
+                say("lw @,?\n", 0);
+            } else if (item == ITEM_SET) {
+                say("sw $t0,?\n", 0);
+            } else if (item == ITEM_CHECK) {
+                say("lw $at,?-4\nsltu $at,@,$at\nbeqz $at,_index\nsll @,@,2\n", 0);
+            } else if (item == ITEM_FETCH) {
+                say("lui $at,%hi(?)\naddu $at,$at,@\nlw @,%lo(?)($at)\n", 0);
+            } else {
+                say("lui $at,%hi(?)\naddu $at,$at,$t0\nsw $t1,%lo(?)($at)\n", 0);
+            }
+        }
+
+        private void call(int item, int count) {
+            for (int i = 0; i < depth; i++) {
+                say("sw $t#,", i);
+                say("#($sp)\n", saved + 4 * i);
+            }
+            for (int j = 0; j < count; j++) {
+                say("move $a#,", j);
+                say("$t#\n", depth + j);
+            }
+            say("jal ?\n", 0);
+            for (int i = 0; i < depth; i++) {
+                say("lw $t#,", i);
+                say("#($sp)\n", saved + 4 * i);
+            }
+            if (item == ITEM_CALL) {
+                say("move @,$v0\n", 0);
+            }
+        }
+
+        private void turn(int item, int label) {
+            if (item == ITEM_UNLESS) {
+                say("beqz $t0,_#\n", label + extra);
+            } else if (item == ITEM_JUMP) {
+                say("b _#\n", label + extra);
+            } else {
+                say("_#:\n", label + extra);
+            }
+        }
+
+        private void single(int item, int operand) {
+            switch (item) {
+                case ITEM_NUMBER:
+                    say("li @,#\n", operand);
+                    break;
+                case ITEM_IN:
+                    say("li $v0,5\nsyscall\nmove @,$v0\n", 0);
+                    break;
+                case ITEM_MINUS:
+                    say("subu @,$zero,@\n", 0);
+                    break;
+                case ITEM_NOT:
+                    say("sltiu @,@,1\n", 0);
+                    break;
+                case ITEM_TURN:
+                    say("nor @,@,$zero\n", 0);
+                    break;
+                case ITEM_RETURN:
+                    say("move $v0,$t0\nb _#\n", endLabel);
+                    break;
+                case ITEM_OUT:
+                    say("move $a0,$t0\nli $v0,1\nsyscall\n", 0);
+                    break;
+                default:
+                    break;
+            }
+        }
+
+        private void two(int item) {
+            switch (item) {
+                case ITEM_ADD:
+                    say("addu @,@,~\n", 0);
+                    break;
+                case ITEM_SUB:
+                    say("subu @,@,~\n", 0);
+                    break;
+                case ITEM_OR:
+                    say("or @,@,~\n", 0);
+                    break;
+                case ITEM_XOR:
+                    say("xor @,@,~\n", 0);
+                    break;
+                case ITEM_MUL:
+                    say("mult @,~\nmflo @\n", 0);
+                    break;
+                case ITEM_DIV:
+                    say("beqz ~,_div\ndiv @,~\nmflo @\n", 0);
+                    break;
+                case ITEM_REM:
+                    say("beqz ~,_div\ndiv @,~\nmfhi @\n", 0);
+                    break;
+                case ITEM_AND:
+                    say("and @,@,~\n", 0);
+                    break;
+                case ITEM_LEFT:
+                    say("sllv @,@,~\n", 0);
+                    break;
+                case ITEM_RIGHT:
+                    say("srav @,@,~\n", 0);
+                    break;
+                case ITEM_SAME:
+                    say("xor @,@,~\nsltiu @,@,1\n", 0);
+                    break;
+                case ITEM_UNLIKE:
+                    say("xor @,@,~\nsltu @,$zero,@\n", 0);
+                    break;
+                case ITEM_LESS:
+                    say("slt @,@,~\n", 0);
+                    break;
+                default:
+                    say("slt @,~,@\nxori @,@,1\n", 0);
+                    break;
             }
         }
     }
@@ -1062,14 +1334,13 @@ public final class ToolMill {
             labelCount = 0;
             split(text, size);
             for (int i = 0; i <= size && kind() != END; i++) {
-                int kind = kind();
-                pass();
-                if (kind == VAR) {
+                if (kind() == VAR) {
+                    pass();
                     variable(false);
-                } else if (kind == PROC) {
+                } else if (kind() == PROC) {
+                    pass();
                     procedure();
                 } else {
-                    at--;
                     wrong();
                 }
             }
@@ -1708,281 +1979,6 @@ public final class ToolMill {
             draft.outerNames[number - 1] = names.first[id];
             draft.outerKinds[number - 1] = uses[row + USE_KIND];
             draft.outerCount = number;
-        }
-    }
-
-    /** Types a draft out as assembly, and settles what its items point to. */
-    static final class Typist {
-        private Reader reader;
-        private Draft draft;
-        private int depth;
-        private long name;
-        /** Labels that are no statement's, so far: a statement's label has these ahead of it. */
-        private int extra;
-        private int endLabel;
-        /** Where the saved words of the procedure at hand begin in its frame. */
-        private int saved;
-
-        void type(Reader from, Draft into) {
-            reader = from;
-            draft = into;
-            draft.typedSize = 0;
-            extra = 0;
-            for (int i = 0; i < draft.itemCount; i++) {
-                int item = draft.items[2 * i] & (1 << ITEM_BITS) - 1;
-                depth = draft.items[2 * i] >> ITEM_BITS;
-                int operand = draft.items[2 * i + 1];
-                if (item <= ITEM_CLOSE) {
-                    declaration(item, operand);
-                } else if (item >= ITEM_GET && item <= ITEM_SEND || item == ITEM_SET || item == ITEM_STORE) {
-                    draft.items[2 * i + 1] = use(item, operand);
-                } else if (item >= ITEM_UNLESS && item <= ITEM_LABEL) {
-                    turn(item, operand);
-                    draft.items[2 * i + 1] = reader.labels[operand];
-                } else if (item >= ITEM_ADD && item <= ITEM_MOST) {
-                    two(item);
-                } else {
-                    single(item, operand);
-                }
-            }
-            for (int i = 0; i < draft.outerCount; i++) {
-                name = draft.outerNames[i];
-                say(".want ?,#\n", draft.outerKinds[i]);
-            }
-        }
-
-        /** @ is the register of the depth, ~ the next one, ? the name, # the number. */
-        private void say(String pattern, int number) {
-            for (int i = 0; i < pattern.length(); i++) {
-                char sign = pattern.charAt(i);
-                if (sign == '@' || sign == '~') {
-                    sign('$');
-                    sign('t');
-                    digits(sign == '@' ? depth : depth + 1);
-                } else if (sign == '?') {
-                    for (int k = 0; k < 8 && (name >>> 8 * k & 255) != 0; k++) {
-                        sign((int) (name >>> 8 * k) & 255);
-                    }
-                } else if (sign == '#') {
-                    digits(number);
-                } else {
-                    sign(sign);
-                }
-            }
-        }
-
-        private void digits(int number) {
-            int unit = 1;
-            while (unit <= 100000000 && number / unit >= 10) {
-                unit *= 10;
-            }
-            for (; unit > 0; unit /= 10) {
-                sign('0' + number / unit % 10);
-            }
-        }
-
-        private void sign(int sign) {
-            if (draft.typedSize < draft.typed.length) {
-                draft.typed[draft.typedSize] = (byte) sign;
-            }
-            draft.typedSize++;
-        }
-
-        private void declaration(int item, int number) {
-            int row = number * Draft.ROW;
-            int words = draft.declared[row + Draft.WORDS];
-            name = draft.declaredNames[number];
-            if (item == ITEM_VARIABLE) {
-                say(".data ?\n.globl ?\n.kind ?,1\n?: .word 0\n", 0);
-            } else if (item == ITEM_ARRAY) {
-                say(".data ?\n.word #\n.globl ?\n.kind ?,2\n?: .space ", words);
-                say("#\n", 4 * words);
-            } else if (item == ITEM_PROCEDURE) {
-                opening(row);
-            } else {
-                int frame = frameOf(row);
-                say("move $v0,$zero\n_#:\n", endLabel);
-                say("lw $ra,#($sp)\n", frame - 4);
-                say("addiu $sp,$sp,#\njr $ra\n", frame);
-            }
-        }
-
-        private int frameOf(int row) {
-            int parameters = draft.declared[row + Draft.KIND_TOLD] - 3;
-            return 4 * (parameters + draft.declared[row + Draft.LOCALS] + draft.declared[row + Draft.SAVED] + 1);
-        }
-
-        private void opening(int row) {
-            int parameters = draft.declared[row + Draft.KIND_TOLD] - 3;
-            int locals = draft.declared[row + Draft.LOCALS];
-            int frame = frameOf(row);
-            saved = 4 * (parameters + locals);
-            say(".text ?\n.globl ?\n.kind ?,#\n?:\n", 3 + parameters);
-            endLabel = draft.declared[row + Draft.LABELS] + extra;
-            extra++;
-            say("addiu $sp,$sp,-#\nslt $at,$sp,$gp\nbnez $at,_room\n", frame);
-            say("sw $ra,#($sp)\n", frame - 4);
-            for (int j = 0; j < parameters; j++) {
-                say("sw $a#,", j);
-                say("#($sp)\n", 4 * j);
-            }
-            if (locals > 0) {
-                say("addiu $v1,$sp,#\n", 4 * parameters);
-                say("addiu $at,$sp,#\n", saved);
-                say("_#:\nsw $zero,0($v1)\naddiu $v1,$v1,4\nbne $v1,$at,_#\n", draft.declared[row + Draft.LABELS] + extra);
-                extra++;
-            }
-        }
-
-        /** An item that names something: its text, and what the meaning has for its operand. */
-        private int use(int item, int use) {
-            int row = use * Reader.USE_ROW;
-            int offset = reader.uses[row + Reader.USE_OFFSET];
-            if (offset >= 0) {
-                int words = reader.uses[row + Reader.USE_WORDS];
-                local(item, 4 * offset, words);
-                return item == ITEM_CHECK ? words : offset;
-            }
-            int target = reader.uses[row + Reader.USE_TARGET];
-            name = target < MOST_NAMES ? draft.declaredNames[target] : draft.outerNames[target - MOST_NAMES];
-            if (item == ITEM_CALL || item == ITEM_SEND) {
-                call(item, reader.uses[row + Reader.USE_KIND] - 3);
-            } else {
-                global(item);
-            }
-            return -1 - target;
-        }
-
-        private void local(int item, int offset, int words) {
-            if (item == ITEM_GET) {
-                say("lw @,#($sp)\n", offset);
-            } else if (item == ITEM_SET) {
-                say("sw $t0,#($sp)\n", offset);
-            } else if (item == ITEM_CHECK) {
-                say("sltiu $at,@,#\nbeqz $at,_index\nsll @,@,2\naddu @,@,$sp\n", words);
-            } else if (item == ITEM_FETCH) {
-                say("lw @,#(@)\n", offset);
-            } else {
-                say("sw $t1,#($t0)\n", offset);
-            }
-        }
-
-        private void global(int item) {
-            if (item == ITEM_GET) {
-                say("lw @,?\n", 0);
-            } else if (item == ITEM_SET) {
-                say("sw $t0,?\n", 0);
-            } else if (item == ITEM_CHECK) {
-                say("lw $at,?-4\nsltu $at,@,$at\nbeqz $at,_index\nsll @,@,2\n", 0);
-            } else if (item == ITEM_FETCH) {
-                say("lui $at,%hi(?)\naddu $at,$at,@\nlw @,%lo(?)($at)\n", 0);
-            } else {
-                say("lui $at,%hi(?)\naddu $at,$at,$t0\nsw $t1,%lo(?)($at)\n", 0);
-            }
-        }
-
-        private void call(int item, int count) {
-            for (int i = 0; i < depth; i++) {
-                say("sw $t#,", i);
-                say("#($sp)\n", saved + 4 * i);
-            }
-            for (int j = 0; j < count; j++) {
-                say("move $a#,", j);
-                say("$t#\n", depth + j);
-            }
-            say("jal ?\n", 0);
-            for (int i = 0; i < depth; i++) {
-                say("lw $t#,", i);
-                say("#($sp)\n", saved + 4 * i);
-            }
-            if (item == ITEM_CALL) {
-                say("move @,$v0\n", 0);
-            }
-        }
-
-        private void turn(int item, int label) {
-            if (item == ITEM_UNLESS) {
-                say("beqz $t0,_#\n", label + extra);
-            } else if (item == ITEM_JUMP) {
-                say("b _#\n", label + extra);
-            } else {
-                say("_#:\n", label + extra);
-            }
-        }
-
-        private void single(int item, int operand) {
-            switch (item) {
-                case ITEM_NUMBER:
-                    say("li @,#\n", operand);
-                    break;
-                case ITEM_IN:
-                    say("li $v0,5\nsyscall\nmove @,$v0\n", 0);
-                    break;
-                case ITEM_MINUS:
-                    say("subu @,$zero,@\n", 0);
-                    break;
-                case ITEM_NOT:
-                    say("sltiu @,@,1\n", 0);
-                    break;
-                case ITEM_TURN:
-                    say("nor @,@,$zero\n", 0);
-                    break;
-                case ITEM_RETURN:
-                    say("move $v0,$t0\nb _#\n", endLabel);
-                    break;
-                case ITEM_OUT:
-                    say("move $a0,$t0\nli $v0,1\nsyscall\n", 0);
-                    break;
-                default:
-                    break;
-            }
-        }
-
-        private void two(int item) {
-            switch (item) {
-                case ITEM_ADD:
-                    say("addu @,@,~\n", 0);
-                    break;
-                case ITEM_SUB:
-                    say("subu @,@,~\n", 0);
-                    break;
-                case ITEM_OR:
-                    say("or @,@,~\n", 0);
-                    break;
-                case ITEM_XOR:
-                    say("xor @,@,~\n", 0);
-                    break;
-                case ITEM_MUL:
-                    say("mult @,~\nmflo @\n", 0);
-                    break;
-                case ITEM_DIV:
-                    say("beqz ~,_div\ndiv @,~\nmflo @\n", 0);
-                    break;
-                case ITEM_REM:
-                    say("beqz ~,_div\ndiv @,~\nmfhi @\n", 0);
-                    break;
-                case ITEM_AND:
-                    say("and @,@,~\n", 0);
-                    break;
-                case ITEM_LEFT:
-                    say("sllv @,@,~\n", 0);
-                    break;
-                case ITEM_RIGHT:
-                    say("srav @,@,~\n", 0);
-                    break;
-                case ITEM_SAME:
-                    say("xor @,@,~\nsltiu @,@,1\n", 0);
-                    break;
-                case ITEM_UNLIKE:
-                    say("xor @,@,~\nsltu @,$zero,@\n", 0);
-                    break;
-                case ITEM_LESS:
-                    say("slt @,@,~\n", 0);
-                    break;
-                default:
-                    say("slt @,~,@\nxori @,@,1\n", 0);
-                    break;
-            }
         }
     }
 
@@ -2731,11 +2727,8 @@ public final class ToolMill {
             Arrays.fill(digitSections, NONE);
             faultKind = 0;
             openSection(named("text"), 0, false);
-            for (int i = 0; i <= MOST_LINES && lines.advance() && faultKind == 0; i++) {
+            for (int i = 0; i <= MOST_LINES && faultKind == 0 && lines.advance(); i++) {
                 faultKind = oneLine();
-                if (faultKind != 0) {
-                    break;
-                }
             }
             if (faultKind == 0) {
                 faultKind = lines.wrong;
