@@ -249,11 +249,14 @@ public final class ToolMill {
         machine = new Machine(codes);
         linker = new Linker(names, machine);
         meaning = new Meaning(names);
+        for (int i = 0; i < MOST_UNITS; i++) {
+            units[i] = new Unit(new Draft(), MOST_SECTIONS, MOST_LABELS, MOST_WANTS, MOST_USES, MOST_BYTES);
+        }
         byte[] runtimeText = new byte[RUNTIME_TEXT.length()];
         for (int i = 0; i < runtimeText.length; i++) {
             runtimeText[i] = (byte) RUNTIME_TEXT.charAt(i);
         }
-        Unit runtime = new Unit(4, 8, 4, 16, 64);
+        Unit runtime = new Unit(null, 4, 8, 4, 16, 64);
         assembler.make(runtime, runtimeText, runtimeText.length);
         units[RUNTIME] = runtime;
     }
@@ -291,7 +294,7 @@ public final class ToolMill {
 
     public int source() throws IllegalStateException {
         Unit unit = nextUnit();
-        Draft draft = unit.draftAtHand();
+        Draft draft = unit.draft;
         reader.read(text, signs, draft);
         int kind = reader.faultKind;
         int place = reader.faultPlace;
@@ -592,13 +595,10 @@ public final class ToolMill {
         return meaning.saidValues[i];
     }
 
-    /** The room of the next unit; it is made once and used again behind forget() or a fault. */
+    /** The room of the next unit; forget() or a fault leaves it to be used again. */
     private Unit nextUnit() {
         if (unitCount >= MOST_UNITS) {
             throw new IllegalStateException("there are six units");
-        }
-        if (units[unitCount] == null) {
-            units[unitCount] = new Unit(MOST_SECTIONS, MOST_LABELS, MOST_WANTS, MOST_USES, MOST_BYTES);
         }
         return units[unitCount];
     }
@@ -788,7 +788,8 @@ public final class ToolMill {
         static final int USE_LINE = 5;
 
         boolean inLanguage;
-        Draft draft;
+        /** What the unit says if it is in the language; null of the runtime, which never is. */
+        final Draft draft;
         /** All sections' bytes, section behind section. */
         final byte[] bytes;
         int byteCount;
@@ -805,7 +806,8 @@ public final class ToolMill {
         final int[] uses;
         int useCount;
 
-        Unit(int mostSections, int mostLabels, int mostWants, int mostUses, int mostBytes) {
+        Unit(Draft draft, int mostSections, int mostLabels, int mostWants, int mostUses, int mostBytes) {
+            this.draft = draft;
             sectionNames = new long[2 * mostSections];
             sections = new int[SECTION_ROW * mostSections];
             labelNames = new long[2 * mostLabels];
@@ -815,13 +817,6 @@ public final class ToolMill {
             useNames = new long[2 * mostUses];
             uses = new int[USE_ROW * mostUses];
             bytes = new byte[mostBytes];
-        }
-
-        Draft draftAtHand() {
-            if (draft == null) {
-                draft = new Draft();
-            }
-            return draft;
         }
 
         void clear() {
