@@ -2198,11 +2198,15 @@ public final class ToolMill {
             if (depth > 0) {
                 return MISPLACED;
             }
-            if (macroCount >= MOST_MACROS) {
-                return TOO_MUCH;
-            }
+            int opener = line;
             int body = frames[AT];
             int fault = keep(true);
+            // Of the .macro's own line a missing .endm is told ahead of one macro too many; faults of later lines are not.
+            boolean unclosed = fault == MISPLACED && line == opener;
+            if (macroCount >= MOST_MACROS && !unclosed) {
+                line = opener;
+                return TOO_MUCH;
+            }
             if (fault != 0) {
                 return fault;
             }
@@ -2217,16 +2221,17 @@ public final class ToolMill {
 
         /** The lines up to the .endr come so many times: the fault's kind, or 0. */
         int repeat(int times) {
-            if (times > 0 && depth >= MOST_OPEN) {
-                return TOO_MUCH;
-            }
             int opener = line;
             int body = frames[depth * FRAME_ROW + AT];
+            // A missing .endr is told ahead of one too many that are open, so it is looked for first.
             int fault = keep(false);
             if (fault != 0) {
                 return fault;
             }
             line = opener;
+            if (times > 0 && depth >= MOST_OPEN) {
+                return TOO_MUCH;
+            }
             if (times > 0) {
                 push(body, from, times, frames[depth * FRAME_ROW + CALLER]);
             }

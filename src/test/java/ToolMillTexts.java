@@ -364,6 +364,79 @@ public final class ToolMillTexts {
         line(".ifsame " + many("y", 300) + ",x\n.endif", 0, 0);
     }
 
+    /** Of one line: the faults of its labels, then the least kind of all the rest. */
+    private static void orderInOneLine() {
+        line("x: x: $", 2, 0);
+        line("x: y: x: .if 1", 2, 0);
+        line("x: .if 1", 1, 0);
+        line("x:\n.set x,1 1", 1, 1);
+        line(".data x\n.text x 1", 1, 1);
+        line("x:\n.set x,y", 1, 1);
+        line(".byte 1\n.word 1b", 3, 1);
+        line(".byte 1\nb 1b", 3, 1);
+        line(".byte 1\n.half 1b", 1, 1);
+        line(".byte 300,$", 1, 0);
+        line(".byte 1\n.word 1b,x y", 1, 1);
+        String full = many(".space 4096\n", 4);
+        line(full + ".byte 256", 3, 4);
+        line(full + ".space 4097", 3, 4);
+        line(full + ".word 1b", 4, 4);
+        line(full + "b 1b", 4, 4);
+        line(full + "blt $t0,$t1,1b", 4, 4);
+        line(full + "la $t0,1b", 4, 4);
+        line(full + ".word 0,x y", 1, 4);
+        String uses = ".rept 30\n.rept 10\n.word x,x,x,x,x,x,x,x,x,x\n.endr\n.endr\n";
+        line(uses + ".word x", 6, 5);
+        line(uses + ".word x,1b", 4, 5);
+        line(uses + ".byte 1\n.word x", 3, 6);
+        String labels = ".macro m\nl\\@:\n.endm\n.rept 6\n.rept 100\nm\n.endr\n.endr\n";
+        line(labels + "y: $", 6, 8);
+        line(labels + "l3: y: $", 2, 8);
+        String constants = labels.replace("l\\@:", ".set l\\@,1").replace(".rept 6", ".rept 2");
+        line(constants + "x:\n.set x,1", 2, 9);
+        String told = labels.replace("l\\@:", ".globl l\\@");
+        line(told + ".kind x,16", 3, 8);
+        line(told + ".globl x,", 1, 8);
+        String sections = "";
+        for (int i = 0; i < 63; i++) {
+            sections += ".data s" + i + "\n";
+        }
+        line(sections + ".text s5", 2, 63);
+        line(many(".if 1\n", 8) + ".if x\n", 1, 8);
+        line(many(".if 1\n", 8) + ".ifsame\n", 1, 8);
+    }
+
+    /** A closing line that is missing is told ahead of what is one too many, in the line that opens. */
+    private static void missingAheadOfTooMany() {
+        String nine = many(".rept 1\n", 9);
+        String closed = many(".endr\n", 9);
+        line(".macro m\n.rept 1\n.endm\n" + nine + "m\n" + closed, 5, 3);
+        line(".macro m\n.rept 1\n.rept 1\n.endr\n.endm\n" + nine + "m\n" + closed, 5, 5);
+        line(".macro m\n.rept 1\n.endr\n.endm\n" + nine + "m\n" + closed, 6, 4);
+        line(".macro m\n.rept 0\n.endm\n" + nine + "m\n" + closed, 5, 3);
+        line(".macro m\n.rept 0\n.endr\n.endm\n" + nine + "m\n" + closed, 0, 0);
+        line(".macro m\n.rept 101\n.endm\n" + nine + "m\n" + closed, 3, 3);
+        line(".macro m\n.rept 1,\n.endm\n" + nine + "m\n" + closed, 1, 3);
+        line(".macro m\nx: .rept 1\n.endm\n" + nine + "m\n" + closed, 1, 3);
+        line(".macro m\n.rept 1\n.endm\n" + nine + "nop\n" + closed, 0, 0);
+        line(".macro m\n.rept 1\n.endm\n" + nine + "m 1\n" + closed, 1, 3);
+        line(".macro m\n.rept 1\n.endm\n.rept 1\n" + nine + "m\n.endr\n" + closed, 6, 3);
+        line(".macro m\n\n.endm\n.rept 1\n" + nine + "m\n.endr\n" + closed, 6, 3);
+        String twelve = "";
+        for (int i = 0; i < 12; i++) {
+            twelve += ".macro m" + i + "\n.endm\n";
+        }
+        line(twelve + ".macro x\nnop", 5, 24);
+        line(twelve + ".macro x", 5, 24);
+        line(twelve + ".macro x\nnop\n.endm\n$", 6, 24);
+        line(twelve + ".macro x\n.macro y\n.endm", 6, 24);
+        line(twelve + ".macro m3\nnop", 2, 24);
+        line(twelve + ".macro m3\n.endm", 2, 24);
+        line(twelve + ".macro x 1\nnop", 1, 24);
+        line(twelve + "nop\n.rept 1\n.macro x\n.endr", 5, 25);
+        line(twelve + ".rept 1\n.macro m3\n.endr", 2, 24);
+    }
+
     private static void slots() {
         words("addu $t0,$t1,$t2\nb x\nx:", "beq $zero,$zero,1 / addu $t0,$t1,$t2");
         words("addu $t0,$t1,$t2\nbeqz $t0,x\nx:", "addu $t0,$t1,$t2 / beq $t0,$zero,1 / sll $zero,$zero,0");
@@ -415,6 +488,8 @@ public final class ToolMillTexts {
         assemblyOrder();
         conditions();
         macros();
+        orderInOneLine();
+        missingAheadOfTooMany();
         limits();
         slots();
         others();
