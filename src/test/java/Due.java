@@ -102,6 +102,57 @@ final class Due {
         return text.toString();
     }
 
+    /** A text in assembly and its fault: kind and line; kind 0 has none. */
+    static void line(String text, int kind, int line) {
+        ToolMill mill = new ToolMill();
+        String what = "assemble() of " + shown(text);
+        is(what, () -> assemble(mill, text), kind == 0 ? 0 : -1);
+        is("kind of " + what, () -> mill.fault(0), kind);
+        is("line of " + what, () -> mill.fault(1), kind == 0 ? -1 : line);
+        is("unit of " + what, () -> mill.fault(2), -1);
+    }
+
+    /** A text in the language and its fault: kind and place; kind 0 has none. */
+    static void place(String text, int kind, int place) {
+        ToolMill mill = new ToolMill();
+        String what = "source() of " + shown(text);
+        is(what, () -> source(mill, text), kind == 0 ? 0 : -1);
+        is("kind of " + what, () -> mill.fault(0), kind);
+        is("place of " + what, () -> mill.fault(1), kind == 0 ? -1 : place);
+        is("unit of " + what, () -> mill.fault(2), -1);
+    }
+
+    /** The words of the first section of a text in assembly. */
+    static void words(String text, String due) {
+        ToolMill mill = new ToolMill();
+        String what = shown(text);
+        if (assemble(mill, text) != 0) {
+            same("assemble() of " + what, "fault " + mill.fault(0) + " in line " + mill.fault(1), "no fault");
+            return;
+        }
+        same("words of " + what, listing(mill, 0, 0).replace("\n", " / "), due.isEmpty() ? "" : due + " / ");
+    }
+
+    /** The relocations of a text in assembly. */
+    static void uses(String text, String due) {
+        ToolMill mill = new ToolMill();
+        String what = shown(text);
+        if (assemble(mill, text) != 0) {
+            same("assemble() of " + what, "fault " + mill.fault(0) + " in line " + mill.fault(1), "no fault");
+            return;
+        }
+        same("relocations of " + what, relocations(mill, 0).replace("\n", " / "), due);
+    }
+
+    static String shown(String text) {
+        String line = text.replace("\n", " / ");
+        return line.length() < 100 ? line : line.substring(0, 100) + "..";
+    }
+
+    static String many(String text, int times) {
+        return text.repeat(times);
+    }
+
     /** Ends the test, with exit code 1 if an answer was wrong. */
     static void finish(String test) {
         System.out.println(test + ": " + asked + " answers, " + wrong + " not as due");

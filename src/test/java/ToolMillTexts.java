@@ -3,46 +3,24 @@ public final class ToolMillTexts {
     private ToolMillTexts() {
     }
 
-    /** A text in assembly and its fault: kind and line; kind 0 has none. */
     private static void line(String text, int kind, int line) {
-        ToolMill mill = new ToolMill();
-        String what = "assemble() of " + shown(text);
-        Due.is(what, () -> Due.assemble(mill, text), kind == 0 ? 0 : -1);
-        Due.is("kind of " + what, () -> mill.fault(0), kind);
-        Due.is("line of " + what, () -> mill.fault(1), kind == 0 ? -1 : line);
+        Due.line(text, kind, line);
     }
 
-    /** A text in the language and its fault: kind and place; kind 0 has none. */
     private static void place(String text, int kind, int place) {
-        ToolMill mill = new ToolMill();
-        String what = "source() of " + shown(text);
-        Due.is(what, () -> Due.source(mill, text), kind == 0 ? 0 : -1);
-        Due.is("kind of " + what, () -> mill.fault(0), kind);
-        Due.is("place of " + what, () -> mill.fault(1), kind == 0 ? -1 : place);
+        Due.place(text, kind, place);
     }
 
-    private static String shown(String text) {
-        String line = text.replace("\n", " / ");
-        return line.length() < 100 ? line : line.substring(0, 100) + "..";
-    }
-
-    /** The words of the first section of a text in assembly. */
     private static void words(String text, String due) {
-        ToolMill mill = new ToolMill();
-        String what = shown(text);
-        Due.is("assemble() of " + what, () -> Due.assemble(mill, text), 0);
-        Due.same("words of " + what, Due.listing(mill, 0, 0).replace("\n", " / "), due + " / ");
+        Due.words(text, due);
     }
 
     private static void uses(String text, String due) {
-        ToolMill mill = new ToolMill();
-        String what = shown(text);
-        Due.is("assemble() of " + what, () -> Due.assemble(mill, text), 0);
-        Due.same("relocations of " + what, Due.relocations(mill, 0).replace("\n", " / "), due);
+        Due.uses(text, due);
     }
 
     private static String many(String text, int times) {
-        return text.repeat(times);
+        return Due.many(text, times);
     }
 
     private static void languageTokens() {
