@@ -57,6 +57,10 @@ public final class ToolMillEdgesAssembly {
         fine("x : y:z: nop");
         fine("   nop   ");
         fault("foo", 1, 0);
+        for (String keyword : new String[] {"var", "proc", "if", "else", "while", "return", "out", "in"}) {
+            fault(keyword, 1, 0);
+            fine(keyword + ": .word " + keyword);
+        }
         fault("x: foo", 1, 0);
         fault(":", 1, 0);
         fault("x::", 1, 0);
@@ -153,6 +157,43 @@ public final class ToolMillEdgesAssembly {
         fault("1b: nop", 1, 0);
         fault("0x1: nop", 1, 0);
         fault("01: nop", 1, 0);
+    }
+
+    /** Names that are operations, and names that are alike in their first or last eight signs. */
+    private static void namesOfAllSorts() {
+        for (String name : new String[] {"sll", "srl", "nop", "ble", ".text", ".endr", "var", "in", "zero"}) {
+            fine(name + ": .word " + name);
+            fault(name + ": nop\n" + name + ":", 2, 1);
+            fault(name + ":\n.set " + name + ",1", 2, 1);
+            fault(".set " + name + ",1\n" + name + ":", 2, 1);
+            bytes(".set " + name + ",5\n.set " + name + "," + name + "+1\n.byte " + name, "6");
+            Due.uses(".word " + name, "0 0 0 -1 0 0 " + name + " / ");
+            Due.uses(name + ": .word " + name, "0 0 0 0 0 0  / ");
+            ToolMill mill = new ToolMill();
+            Due.assemble(mill, name + ": .globl " + name + "\n.kind " + name + ",7");
+            Due.is(name + " is global", () -> mill.label(0, 0, 2), 1);
+            Due.is("KIND of " + name, () -> mill.label(0, 0, 3), 7);
+        }
+        String[] alike = {"abcdefgh", "abcdefghi", "abcdefghj", "abcdefghijklmnop", "abcdefghijklmnoq", "bbcdefghijklmnop", "ijklmnop"};
+        StringBuilder labels = new StringBuilder();
+        StringBuilder sections = new StringBuilder();
+        StringBuilder due = new StringBuilder("text 0 0 4; ");
+        StringBuilder constants = new StringBuilder();
+        for (int i = 0; i < alike.length; i++) {
+            labels.append(alike[i]).append(": .byte 1\n");
+            sections.append(".data ").append(alike[i]).append("\n.byte 1\n");
+            constants.append(".set ").append(alike[i]).append(',').append(i).append('\n');
+        }
+        for (String name : alike) {
+            sections.append(".data ").append(name).append("\n.byte 2\n");
+            due.append(name).append(" 1 2 4; ");
+        }
+        fine(labels.toString());
+        sections(sections.toString(), due.toString());
+        for (int i = 0; i < alike.length; i++) {
+            Due.uses(labels + ".align 2\n.word " + alike[i], "0 8 0 0 " + i + " 8  / ");
+            bytes(constants + ".byte " + alike[i], "" + i);
+        }
     }
 
     /** Each register by its word and by its number. */
@@ -480,6 +521,7 @@ public final class ToolMillEdgesAssembly {
         words();
         numbers();
         values();
+        namesOfAllSorts();
         registers();
         instructionWords();
         operands();

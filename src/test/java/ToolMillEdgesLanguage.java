@@ -62,6 +62,65 @@ public final class ToolMillEdgesLanguage {
         Due.is("the number is still to come", () -> Due.source(mill, "var b;"), 0);
     }
 
+    /** The signs behind end() don't count, whatever stood there. */
+    private static void ends() {
+        String language = "proc f(abcdefgh,b){var a[200];#x y\na[b]=2147483647<<12+abcdefgh==in()*-g[b];if(a[0]<=b){while(1){out(!b);}}else{return ~b;}}var g[12];";
+        String assembly = ".macro m a,b\nli $t0,\\a+0x12ab\n.endm\nabcdefghijklmnop: m 5,6 # x\n1: b 1b\n.if 1\nlw $t0,%lo(abcdefghijklmnop)($sp)\n.endif\n.rept 2\n.word 4294967295,1f\n.endr\n"
+            + "1:\n.ifsame ab , ab\n.byte 255\n.endif\n.noreorder\n.want x,12";
+        for (String text : new String[] {language, assembly}) {
+            ToolMill mill = new ToolMill();
+            for (int n = text.length(); n >= 0; n--) {
+                ToolMill other = new ToolMill();
+                Due.write(other, text.substring(0, n));
+                Due.write(mill, text);
+                mill.end(n);
+                String what = " of the first " + n + " signs of " + Due.shown(text);
+                int signs = n;
+                Due.is("signs" + what, () -> mill.put(0), signs);
+                Due.is("source()" + what, mill::source, other.source());
+                Due.is("kind" + what, () -> mill.fault(0), other.fault(0));
+                Due.is("place" + what, () -> mill.fault(1), other.fault(1));
+                mill.forget();
+                other.forget();
+                Due.is("assemble()" + what, mill::assemble, other.assemble());
+                Due.is("kind in assembly" + what, () -> mill.fault(0), other.fault(0));
+                Due.is("line" + what, () -> mill.fault(1), other.fault(1));
+                mill.forget();
+            }
+        }
+        ToolMill full = new ToolMill();
+        Due.write(full, " ".repeat(2992) + "var abcd");
+        full.end(2999);
+        Due.is("end(2999)", () -> full.put('x'), 3000);
+        full.end(3000);
+        Due.is("end(3000) of a full text", full::source, -1);
+        Due.is("place of the end", () -> full.fault(1), 3000);
+        full.end(2999);
+        Due.is("put() behind end()", () -> full.put(';'), 3000);
+        Due.is("source() then", full::source, 0);
+    }
+
+    /** Each text begins anew: names, locals and labels of the one ahead are gone. */
+    private static void anew() {
+        String[] texts = {
+            "var sll;proc f(a){var b;if(a){var c;}while(b){}c=1;}", "proc sll(a){a=b;}proc b2(){c();}", "proc b(){var sll[3];f();c[1]=1;}", "var a;var b;var c;var f;",
+            "proc f(){x=" + Due.many("(", 19) + "1" + Due.many(")", 19) + ";}", "proc f(a,b,c,d){var e[9];x=1+(2+g(h()));while(x){}}", "proc f(){x=1;if(x){}}", "var a[9];proc f(){}",
+        };
+        String[] faults = {"proc f(){((", "var a;var a;", "proc f(a){a();b();}", "proc f(){var a[200];var b[200];var c;}", "proc f(){if(1){while(2){var q;"};
+        ToolMill mill = new ToolMill();
+        for (int round = 0; round < 3; round++) {
+            for (int i = 0; i < texts.length; i++) {
+                String text = texts[i];
+                String wrong = faults[i % faults.length];
+                ToolMill other = new ToolMill();
+                Due.is("source() again of " + text, () -> Due.source(mill, text), Due.source(other, text));
+                Due.same("assembly of " + text, Due.typed(mill, 0), Due.typed(other, 0));
+                mill.forget();
+                Due.is("source() again of " + wrong, () -> Due.source(mill, wrong), -1);
+            }
+        }
+    }
+
     private static void words() {
         fine("var a;");
         fine("var abcdefgh;");
@@ -78,6 +137,20 @@ public final class ToolMillEdgesLanguage {
         at("@vara;", 1);
         fine("var\na\n;\n");
         fine("var varr;var in2;var ifx;");
+        at("@abcdefghi", 1);
+        at("var a;@abcdefghi", 1);
+        at("var a;@2147483648", 1);
+        // words of the assembly are no keywords here
+        for (String word : new String[] {"sll", "sw", "nop", "ble", "b", "zero", "sp"}) {
+            fine("var " + word + ";proc f(){" + word + "=" + word + "+1;}");
+            fine("var " + word + "[2];proc f(){" + word + "[1]=" + word + "[0];}");
+            fine("proc " + word + "(){" + word + "();}");
+            fine("proc f(" + word + "){" + word + "=" + word + ";}");
+            fine("proc f(){var " + word + ";" + word + "=" + word + ";}");
+            fine("proc f(){" + word + "=1;x=" + word + ";}");
+            at("proc f(){" + word + "=1;@" + word + "();}", 3);
+            at("var " + word + ";var @" + word + ";", 2);
+        }
         for (String keyword : new String[] {"var", "proc", "if", "else", "while", "return", "out", "in"}) {
             at("var @" + keyword + ";", 1);
             at("proc @" + keyword + "(){}", 1);
@@ -470,6 +543,8 @@ public final class ToolMillEdgesLanguage {
     public static void main(String[] args) {
         signs();
         units();
+        ends();
+        anew();
         words();
         numbers();
         tokens();

@@ -126,6 +126,13 @@ public final class ToolMillEdgesLines {
         fault(".macro m .a\n.endm", 1, 0);
         fault(".macro m a.b\n.endm", 1, 0);
         fault(".macro m abcdefghijk.m\n.endm", 1, 0);
+        for (int dot = 1; dot < 16; dot++) {
+            fault(".macro m " + "abcdefghijklmnop".substring(0, dot) + ".\n.endm", 1, 0);
+        }
+        words(".macro m abcdefgh,abcdefgh1,abcdefgh2,bbcdefgh2\nbreak \\abcdefgh2\nbreak \\bbcdefgh2\nbreak \\abcdefgh\nbreak \\abcdefgh1\n.endm\nm 1,2,3,4",
+            "break 3 / break 4 / break 1 / break 2");
+        fault(".macro m abcdefgh1,abcdefgh2,abcdefgh1\n.endm", 1, 0);
+        words(".macro abcdefgh1\nbreak 1\n.endm\n.macro abcdefgh2\nbreak 2\n.endm\n.macro bbcdefgh2\nbreak 3\n.endm\nabcdefgh2\nbbcdefgh2\nabcdefgh1", "break 2 / break 3 / break 1");
         fault(".macro m 1\n.endm", 1, 0);
         fault("x: .macro m\n.endm", 1, 0);
         fine(".macro m.n _,a1,m\n.endm");
@@ -188,10 +195,23 @@ public final class ToolMillEdgesLines {
         fault(".rept 1\nbreak \\@\n.endr", 1, 0);
         fault(".macro m a\nbreak \\a\n.endm\nm \\a", 1, 3);
         fine(".macro m a\nnop #\\b\n.if 0\n\\b\n.endif\n.endm\nm 1");
+        // arguments of macros in one another
+        String n = ".macro nnnnnnnnnnnnnnnn aaaaaaaaaaaaaaaa,bbbbbbbbbbbbbbbb,cccccccccccccccc,dddddddddddddddd\nbreak \\dddddddddddddddd+\\cccccccccccccccc+\\bbbbbbbbbbbbbbbb+\\aaaaaaaaaaaaaaaa\n.endm\n";
+        String m = ".macro m a,b,c,d\nnnnnnnnnnnnnnnnn \\a+1,\\b+2,\\c,0x00000001\nbreak \\a\n.rept 2\nnnnnnnnnnnnnnnnn \\d,\\c,\\b,\\a\nbreak \\b\n.endr\nbreak \\c\nbreak \\d\n.endm\n";
+        String p = ".macro p z\nm \\z,20,30,40\nbreak \\z\n.endm\n";
+        String due = "break 64 / break 10 / break 100 / break 20 / break 100 / break 20 / break 30 / break 40";
+        words(n + m + p + "m 10,20,30,40", due);
+        words(p + m + n + "p 10", due + " / break 10");
+        words(m + n + p + ".rept 1\np 10\n.endr\nnnnnnnnnnnnnnnnn 1,2,3,4", due + " / break 10 / break 10");
         // \@ is how many macros were called ahead
         words(".macro m\nbreak \\@\n.endm\nm\nm\nm", "break 0 / break 1 / break 2");
         words(".macro m\nbreak \\@\n.endm\n.macro n\nbreak \\@\nm\nbreak \\@\n.endm\nm\nn\nm", "break 0 / break 1 / break 2 / break 1 / break 3");
         words(".macro m\n.endm\n.macro n\nbreak \\@\n.endm\n.rept 12\nm\n.endr\nn", "break 12");
+        for (int calls : new int[] {1, 9, 10, 89, 90, 99, 100}) {
+            words(".macro m\n.endm\n.macro n\nbreak \\@\n.endm\n.rept " + calls + "\nm\n.endr\nn", "break " + calls);
+        }
+        words(".macro m\n.endm\n.macro n\nbreak \\@\n.endm\n.rept 10\n.rept 99\nm\n.endr\n.endr\nn", "break 990");
+        words(".macro m\n.endm\n.macro n\nbreak \\@-1000\n.endm\n.rept 20\n.rept 50\nm\n.endr\n.endr\nn", "break 0");
         words(".macro m\n.endm\n.macro n\nbreak \\@0\n.endm\n.rept 100\nm\n.endr\nn", "break 1000");
         words(".macro m a\n.rept 2\nbreak \\a\\@\n.endr\n.endm\n.rept 2\nm 1\n.endr", "break 10 / break 10 / break 11 / break 11");
         words(".macro m a\nn \\a+1\nbreak \\a\n.endm\n.macro n a\nbreak \\a\n.endm\nm 5", "break 6 / break 5");
@@ -301,6 +321,48 @@ public final class ToolMillEdgesLines {
         fine(constants + ".set n7,5\n.set n199,n7");
         fault(constants + ".set x,1", 6, 8);
         fault(constants + ".set x,n", 1, 8);
+        fault(constants + ".globl x\n.set x,1", 6, 9);
+        fault(constants + ".kind sll,1\n.set sll,1", 6, 9);
+        fault(constants + ".word x\n.set x,1", 6, 9);
+        fine(constants.replace(".rept 2\n", ".rept 1\n") + ".globl x\n.set x,1\n.set sll,1");
+        fault(globals + ".set x,1\n.globl x", 6, 9);
+        fault(globals + "sll: .kind sll,1", 6, 8);
+    }
+
+    /** Each text begins anew: what one told, the next one doesn't know. */
+    private static void anew() {
+        String[] texts = {
+            each(".macro n*\n.endm\n", 12), each(".data n*\n", 63), ".macro m\nn\\@:\n.endm\n.rept 6\n.rept 100\nm\n.endr\n.endr", ".macro m\n.globl n\\@\n.endm\n.rept 6\n.rept 100\nm\n.endr\n.endr",
+            ".macro m\n.set n\\@,1\n.endm\n.rept 2\n.rept 100\nm\n.endr\n.endr", ".macro m\n.want n,1\n.endm\n.rept 6\n.rept 100\nm\n.endr\n.endr", many(".space 4096\n", 4),
+            ".rept 30\n.rept 10\n.word x,x,x,x,x,x,x,x,x,x\n.endr\n.endr", ".macro m\n\n\n.endm" + many("\n.rept 100\nm\n.endr", 13) + many("\n", 57), many(".if 1\n", 8) + many(".endif\n", 8),
+            many(".rept 1\n", 10) + many(".endr\n", 10), "1: .word 1b", ".word 1f\n1:", "x: .set k,1", "k: .set x,1", "sll: .set srl,1\n.globl sra", ".set sll,1\nsrl:", ".noreorder", "nop\njr $ra", ".macro m\nbreak \\@\n.endm\nm",
+        };
+        String[] faults = {".if 1", ".rept 1", ".macro m", "1: .word 2f", ".macro m\nm\n.endm\nm", ".rept 1\n.if 0\n?\n.endr", "x: .data\n?", "?"};
+        ToolMill mill = new ToolMill();
+        for (int round = 0; round < 3; round++) {
+            for (int i = 0; i < texts.length; i++) {
+                String text = texts[i];
+                String wrong = faults[i % faults.length];
+                Due.is("assemble() again of " + Due.shown(text), () -> Due.assemble(mill, text), 0);
+                Due.is("no fault", () -> mill.fault(0), 0);
+                mill.forget();
+                Due.is("assemble() again of " + Due.shown(wrong), () -> Due.assemble(mill, wrong), -1);
+            }
+            Due.assemble(mill, "nop\n.macro m\nbreak \\@\n.endm\njr $ra\nm\n");
+            Due.same("words behind all that", Due.listing(mill, 0, 0), "jr $ra\nsll $zero,$zero,0\nbreak 0\n");
+            mill.forget();
+            Due.assemble(mill, ".word abcdefghijklmnop,abcdefghijklmnop");
+            Due.is("16th sign of a name", () -> mill.relocation(0, 1, 25), (int) 'p');
+            mill.forget();
+            Due.assemble(mill, "1: .word 1b,1f\n1:");
+            for (int k = 10; k < 27; k++) {
+                int what = k;
+                Due.is("no sign of it then", () -> mill.relocation(0, 0, what) + mill.relocation(0, 1, what), -2);
+            }
+            mill.forget();
+            Due.is("a backward reference of the text ahead isn't there", () -> Due.assemble(mill, ".word 1b"), -1);
+            Due.is("fault 4", () -> mill.fault(0), 4);
+        }
     }
 
     private static void tooMuchOfUses() {
@@ -437,6 +499,7 @@ public final class ToolMillEdgesLines {
         repts();
         openOnes();
         tooMuchOfNames();
+        anew();
         tooMuchOfUses();
         tooMuchOfBytes();
         tooManyLines();

@@ -125,6 +125,8 @@ public final class ToolMillEdgesLink {
         // a label that another unit has at an odd place
         fault(mill(MAIN + "jal odd\n", ".globl odd\n.space 1\nodd:"), 0, 512, 5, 1, 0);
         fault(mill(".globl f\n.space 2\nf:", "\n\n" + MAIN + "b f"), 0, 512, 5, 3, 1);
+        // the runtime's own jump
+        fault(mill(".globl main\n.space 2\nmain:"), 0, 512, 5, 2, 6);
         // only where it is reached
         linked(mill(MAIN + "jr $ra\n.text q\nj q\n.text r\nj main+2\nq:"), 0, 512, 28);
         // words, %hi and %lo may be odd
@@ -170,6 +172,33 @@ public final class ToolMillEdgesLink {
             Due.is("link() with " + use, () -> reaches.link(0, 512) >= 0 ? reaches.section(0, 1, 3) > 0 ? 1 : 0 : -1, 1);
             Due.is("the other section isn't reached", () -> reaches.section(0, 2, 3), -1);
         }
+        // the runtime's _traps, once reached, and then no more
+        ToolMill traps = mill("proc main(){}");
+        Due.is("link() of a procedure", () -> traps.link(0, 512), 36 + 32);
+        Due.is("_traps is reached", () -> traps.section(6, 2, 3), 36 + 20);
+        traps.forget();
+        Due.is("nothing is linked", () -> traps.section(6, 2, 3), -1);
+        Due.is("another unit", () -> Due.assemble(traps, MAIN + "jr $ra"), 0);
+        Due.is("link() of it", () -> traps.link(0, 512), 28);
+        Due.is("_traps is not reached then", () -> traps.section(6, 2, 3), -1);
+        Due.is("_start is", () -> traps.section(6, 1, 3), 8);
+        // a label behind 599 others, a name that is an operation, names that are alike in eight signs
+        ToolMill many = mill(".macro m\nn\\@:\n.endm\n.rept 6\n.rept 99\nm\n.endr\n.endr\nnop\n" + MAIN + "jr $ra\n.globl sll\nsll: nop\n.globl abcdefghi\nabcdefghi: nop\n.globl abcdefghj\nabcdefghj: nop",
+            "nop\n.data\n.globl d\nd: .word main,sll,abcdefghi,abcdefghj", ".text x\n.globl x\nx: .word d");
+        Due.is("it links", () -> many.link(0, 512), 24 + 20);
+        ToolMill names = mill(MAIN + "jr $ra\n.word d", "nop\n.text n\n.macro m\nn\\@: .byte 1\n.endm\n.rept 6\n.rept 99\nm\n.endr\n.endr\n.globl sll\nsll: .byte 1\n.globl abcdefghi\nabcdefghi: .byte 1\n"
+            + ".globl abcdefghj\nabcdefghj: .byte 1\n.kind sll,5\n.kind abcdefghj,6", ".data\n.globl d\nd: .word sll,abcdefghi,abcdefghj\n.want sll,5\n.want abcdefghi,2\n.want abcdefghj,6");
+        Due.is("it links", () -> names.link(0, 2048), 12 + 597 + 3 + 20 + 12);
+        int data = names.section(2, 1, 3);
+        Due.is("sll", () -> names.word(data), 12 + 594);
+        Due.is("abcdefghi", () -> names.word(data + 4), 12 + 595);
+        Due.is("abcdefghj", () -> names.word(data + 8), 12 + 596);
+        fault(mill(".globl sll\nsll: nop", ".globl sll\nsll: nop"), 0, 512, 1, 1, 1);
+        fault(mill(MAIN + "jal sll"), 0, 512, 2, 1, 0);
+        fault(mill(MAIN + "jr $ra\n.globl sll\nsll: .kind sll,3\n.want sll,2"), 0, 512, 3, 4, 0);
+        fault(mill(MAIN + "jr $ra\n.globl abcdefghj\nabcdefghj: .kind abcdefghj,6\n.want abcdefghj,5"), 0, 512, 3, 4, 0);
+        fault(mill(MAIN + "jr $ra\n.want abcdefgh,1\n.globl abcdefghj\nabcdefghj: .kind abcdefghj,6\n.want abcdefghj,5"), 0, 512, 3, 5, 0);
+        fault(mill(".globl abcdefghi\nabcdefghi: nop", ".globl abcdefghj\nabcdefghj: nop", "\n.globl abcdefghi\nabcdefghi:"), 0, 512, 1, 2, 2);
         // a text's end that is no multiple of 4
         ToolMill bytes = mill(MAIN + "jal z", "nop\n.globl z\n.text z\nz: jr $ra\n.byte 1\n");
         linked(bytes, 0, 512, 8 + 9 + 3 + 20);

@@ -248,6 +248,18 @@ public final class ToolMillEdgesMachine {
         stops("break 1023", 2, 1023);
     }
 
+    /** All 26 bits of a jump, at bases whose bits are 0 and 1 in turn. */
+    private static void farBases() {
+        for (int base : new int[] {0, 0x5555554, 0xAAAAAA8, 200000000, 0x8000000 - 16, 0x4000000 - 8}) {
+            ToolMill mill = new ToolMill();
+            Due.assemble(mill, MAIN + "jal f\nla $t0,f\njalr $t0\nlw $t1,x\naddiu $t1,$t1,1\nsw $t1,x\nj g\n.text f\nf: addiu $s0,$s0,1\njr $ra\n.text g\nnop\ng: lw $a0,x\naddu $a0,$a0,$s0" + LEAVE + "\n.data\nx: .word 40");
+            Due.is("link() at " + base, () -> mill.link(base, 512) > 0 ? 1 : 0, 1);
+            mill.run(100);
+            Due.is("OUTCOME at " + base, () -> mill.state(0), 1);
+            Due.is("number at " + base, () -> mill.state(1), 43);
+        }
+    }
+
     private static void syscalls() {
         for (int wish : new int[] {0, 2, 3, 4, 6, 9, 11, -1, 65537, 0x80000005, 256 + 10}) {
             stops("li $v0," + wish + "\nsyscall", 5, wish);
@@ -419,6 +431,7 @@ public final class ToolMillEdgesMachine {
         endOfText();
         fetches();
         words();
+        farBases();
         syscalls();
         stopped();
         steps();

@@ -147,6 +147,49 @@ public final class ToolMillEdgesMeaning {
         means(mill("proc f(a,b,c,d){return a*1000+b*100+c*10+d;}proc main(){return f(1,2,3,4);}"), 20000, 1, 1234, 2, 2);
     }
 
+    /** Variables, arrays, parameters and locals have words of their own, in all units. */
+    private static void ownWords() {
+        means(mill("var a;var b[3];var c;proc main(){a=1;b[0]=2;b[1]=3;b[2]=4;c=5;d=6;e[0]=7;e[1]=8;f=9;"
+            + "return ((((((((a*10+b[0])*10+b[1])*10+b[2])*10+c)*10+d)*10+e[0])*10+e[1])*10+f);}", "var d;var e[2];var f;"), 20000, 1, 123456789, 10, 1);
+        means(mill("var x;", "var y[5];", "proc main(){x=1;y[4]=2;z=3;w[0]=4;return x*1000+y[4]*100+z*10+w[0];}", "var z;", "", "var w[1];"), 20000, 1, 1234, 5, 1);
+        means(mill("proc f(a,b,c,d){var x[200];var y[199];var z;z=a;y[198]=b;x[0]=c;x[199]=d;g(1,2,3,4);return z*1000+y[198]*100+x[0]*10+x[199]+y[0];}"
+            + "proc g(a,b,c,d){var x[200];var y[199];var z;z=90;y[198]=91;x[0]=92;x[199]=93;y[0]=94;return z+a+b+c+d;}proc main(){return f(5,6,7,8)+main2();}proc main2(){return 1;}"), 20000, 1, 5679, 20, 3);
+        StringBuilder first = new StringBuilder("proc main(){");
+        StringBuilder second = new StringBuilder();
+        for (int i = 10; i < 69; i++) {
+            first.append("o").append(i).append("=").append(i).append(";d").append(i).append("=").append(i).append(";");
+            second.append("var o").append(i).append(";");
+        }
+        first.append("out(o10);out(o11);out(o68);out(d10);out(d68);return p(d68);}");
+        StringBuilder declared = new StringBuilder();
+        for (int i = 10; i < 69; i++) {
+            declared.append("var d").append(i).append(";");
+        }
+        ToolMill mill = mill(first.toString() + declared, second + "", "proc p(n){q=n*100;return q+o40;}var q;");
+        means(mill, 20000, 1, 6840, 2 * 59 + 6 + 2, 2);
+        int[] due = {10, 11, 68, 10, 68};
+        for (int i = 0; i < due.length; i++) {
+            int k = i;
+            Due.is("said(" + k + ") of 120 names", () -> mill.said(k), due[k]);
+        }
+        means(mill("var sll;proc srl(sra){var nop;nop=sra;sll=nop;return lw;}proc main(){return srl(5)*10+sll;}", "var lw;"), 20000, 1, 5, 5, 2);
+        Due.is("sll twice", () -> mill("proc main(){}var sll;", "var sll;").mean(1), Due.ILLEGAL_STATE);
+        Due.is("sll missing", () -> mill("proc main(){sll=1;}").mean(1), Due.ILLEGAL_STATE);
+    }
+
+    /** As many words as six units can have. */
+    private static void allWords() {
+        String[] texts = new String[6];
+        for (int u = 0; u < 6; u++) {
+            StringBuilder text = new StringBuilder();
+            for (char c = 'a'; c < 'a' + (u == 5 ? 19 : 20); c++) {
+                text.append("var ").append(c).append(u).append("[200];");
+            }
+            texts[u] = text + (u == 5 ? "proc main(){a0[0]=1;t0[199]=2;a1[0]=3;t4[199]=4;a5[0]=5;s5[199]=6;return ((((a0[0]*10+t0[199])*10+a1[0])*10+t4[199])*10+a5[0])*10+s5[199]+b3[7];}" : "");
+        }
+        means(mill(texts), 20000, 1, 123456, 7, 1);
+    }
+
     private static void localsInLoops() {
         main("var i;while(i<3){var k;k=k+1;i=i+1;if(i==3){return k;}}", 1, 3, 2 + 3 + 3 * 4 + 1);
         main("var i;while(i<2){var a[2];a[1]=a[1]+5;i=i+1;out(a[1]);}return 0;", 1, 0, 2 + 3 + 2 * 4 + 1);
@@ -292,6 +335,8 @@ public final class ToolMillEdgesMeaning {
         signs();
         traps();
         calls();
+        ownWords();
+        allWords();
         localsInLoops();
         steps();
         inputsAndValues();

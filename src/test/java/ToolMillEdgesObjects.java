@@ -54,6 +54,8 @@ public final class ToolMillEdgesObjects {
             }
             for (String ahead : READS_ONLY) {
                 moves(ahead, turn, true);
+                moves(ahead, turn.replace("$t0", "$at"), true);
+                moves(ahead, turn.replace("$t0", "$ra").replace("$t1", "$v0"), true);
             }
             for (String ahead : new String[] {"syscall", "break 5"}) {
                 moves(ahead, turn, false);
@@ -125,6 +127,23 @@ public final class ToolMillEdgesObjects {
         Due.words(".text\n.text y\nli $t0,1\n.text\njr $ra", "jr $ra / " + NOP);
     }
 
+    /** Other sections' bytes stay what they are, whatever comes into one. */
+    private static void bytesOfOthers() {
+        ToolMill mill = new ToolMill();
+        Due.is("assemble()", () -> Due.assemble(mill, ".data a\n.byte 255,254\n.text t\nli $t0,1\n.data b\n.byte 253,252,251,250\n.text t\njr $ra\nnop\n.data a\n.byte 249\n.text\nli $t1,2\njr $ra\n.text t\nb t+8"), 0);
+        int[][] due = {{}, {255, 254, 249}, {}, {253, 252, 251, 250}};
+        for (int i = 0; i < due.length; i++) {
+            for (int k = 0; k < due[i].length; k++) {
+                int section = i;
+                int at = k;
+                Due.is("byteOf(0, " + i + ", " + k + ")", () -> mill.byteOf(0, section, at), due[i][k]);
+            }
+        }
+        Due.same("text", Due.listing(mill, 0, 0), "jr $ra\naddiu $t1,$zero,2\n");
+        Due.same("t", Due.listing(mill, 0, 2), "jr $ra\naddiu $t0,$zero,1\nbeq $zero,$zero,0\n" + NOP + "\n");
+        Due.is("all bytes", () -> mill.unit(0, 4), 8 + 3 + 16 + 4);
+    }
+
     /** With the instruction that is moved its use of a label goes, too. */
     private static void movedUses() {
         Due.uses("addiu $t0,$t1,%lo(x)\njal y", "0 4 2 -1 0 0 x / 0 0 3 -1 0 1 y / ");
@@ -188,6 +207,23 @@ public final class ToolMillEdgesObjects {
         Due.is("behind it", () -> mill.relocation(0, 0, 26), -1);
         Due.is("far behind it", () -> mill.relocation(0, 0, Integer.MAX_VALUE), -1);
         Due.is("no name", () -> mill.relocation(0, 1, 10), -1);
+        for (int k = 10; k < 30; k++) {
+            int what = k;
+            Due.is("no name, sign " + (k - 10), () -> mill.relocation(0, 1, what), -1);
+        }
+        ToolMill own = new ToolMill();
+        Due.assemble(own, "abcdefghijklmnop: .word abcdefghijklmnop");
+        for (int k = 10; k < 30; k++) {
+            int what = k;
+            Due.is("a label of its own, sign " + (k - 10), () -> own.relocation(0, 0, what), -1);
+        }
+        ToolMill digits = new ToolMill();
+        Due.assemble(digits, "1: .word abcdefghijklmnop,1b,1f\n1:");
+        for (int k = 10; k < 30; k++) {
+            int what = k;
+            Due.is("1b has no name, sign " + (k - 10), () -> digits.relocation(0, 1, what), -1);
+            Due.is("1f has no name, sign " + (k - 10), () -> digits.relocation(0, 2, what), -1);
+        }
         Due.is("NONE of a name", () -> mill.relocation(0, 0, 3), -1);
         Due.is("section of a label", () -> mill.relocation(0, 1, 3), 0);
         Due.is("the word in the object is 0", () -> mill.byteOf(0, 0, 0) + mill.byteOf(0, 0, 4), 0);
@@ -233,6 +269,7 @@ public final class ToolMillEdgesObjects {
         slotsOfEach();
         slotsOfRa();
         slotsOfLines();
+        bytesOfOthers();
         movedUses();
         distances();
         relocations();

@@ -78,6 +78,9 @@ public final class ToolMillEdgesTyped {
 
     private static void factors() {
         code("x=0;", 0, "li $t0,0;sw $t0,x;", ".want x,1;");
+        for (String number : new String[] {"9", "10", "90", "99", "100", "909", "999", "1000", "99999999", "100000000", "900000000", "999999999"}) {
+            code("x=" + number + ";", 0, "li $t0," + number + ";sw $t0,x;", ".want x,1;");
+        }
         code("x=0000000012;", 0, "li $t0,12;sw $t0,x;", ".want x,1;");
         code("x=2147483647;", 0, "li $t0,2147483647;sw $t0,x;", ".want x,1;");
         code("x=1000000000;", 0, "li $t0,1000000000;sw $t0,x;", ".want x,1;");
