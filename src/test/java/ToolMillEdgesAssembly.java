@@ -65,6 +65,15 @@ public final class ToolMillEdgesAssembly {
         fault(":", 1, 0);
         fault("x::", 1, 0);
         fault("x: 5", 1, 0);
+        fault(",".repeat(3000), 1, 0);
+        fault(":".repeat(3000), 1, 0);
+        fault("a:".repeat(1500), 2, 0);
+        fine("1:".repeat(1500));
+        fault("nop\n" + "(".repeat(2996), 1, 1);
+        fine(".byte 1" + ",1".repeat(1496));
+        fault(".byte 1" + ",1".repeat(1496) + ",", 1, 0);
+        fine(".byte 1" + "+0".repeat(1496));
+        fault(".byte 1" + "+0".repeat(1496) + "+", 1, 0);
         fault("$t0: nop", 1, 0);
         fault("5", 1, 0);
         fault(",", 1, 0);
@@ -279,6 +288,11 @@ public final class ToolMillEdgesAssembly {
         for (String text : wrong) {
             fault(text, 1, 0);
             fault("nop\nx: y:" + text, 1, 1);
+        }
+        for (String part : new String[] {"%", "%h", "%l", "%ho", "%li", "%xo", "%xi", "%hx", "%lx", "%hi_", "%lo0", "%lo.", "%hilo", "% hi", "% lo", "%HI"}) {
+            fault("lui $t0," + part + "(x)", 1, 0);
+            fault("addiu $t0,$t0," + part + "(x)", 1, 0);
+            fault("lw $t0," + part + "(x)($t1)", 1, 0);
         }
         String[] right = {
             "addu $t0 , $t1,$t2", "lw $t0,%lo(x)($t1)", "lw $t0,%lo ( x+4 ) ($t1)", "lw $t0,x-4", "lw $t0,4-8($t1)", "sw $t0,1f\n1:", "lui $t0,%hi(1f)\n1:", "addiu $t0,$t1,%lo(5)",

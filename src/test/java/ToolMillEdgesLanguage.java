@@ -38,6 +38,20 @@ public final class ToolMillEdgesLanguage {
         place(" ".repeat(2994) + "var a;", 0, 0);
         place(" ".repeat(2995) + "var a", 1, 3000);
         place("\n".repeat(3000), 0, 0);
+        place(";".repeat(3000), 1, 0);
+        place("(".repeat(3000), 1, 0);
+        place("a;".repeat(1500), 1, 0);
+        place("proc f(){" + ";".repeat(2991), 1, 9);
+        // as many uses of names, locals and statements as there can be
+        place("proc f(){x=a" + "+a".repeat(1493) + ";}", 4, 3000);
+        place("proc f(){x=a" + "+a".repeat(1300) + ";}", 0, 0);
+        place("proc f(){" + "f();".repeat(747) + "}  ", 0, 0);
+        place("proc f(){" + "if(1){}".repeat(427) + "}", 0, 0);
+        place("proc f(){" + "while(1){}".repeat(299), 1, 2999);
+        place("proc f(){" + "while(1){}".repeat(298) + "}", 0, 0);
+        place("proc f(){" + "var a;".repeat(498) + "}", 2, 19);
+        place("proc f(){" + "if(1){var a;}".repeat(230) + "}", 0, 0);
+        place("proc f(){x=" + "1+".repeat(1000) + "1;}", 0, 0);
         place("#".repeat(3000), 0, 0);
     }
 
@@ -60,6 +74,29 @@ public final class ToolMillEdgesLanguage {
         Due.is("a fault takes no number", () -> Due.source(mill, "var"), -1);
         Due.is("no unit with a fault", () -> mill.unit(0, 0), Due.NO_ELEMENT);
         Due.is("the number is still to come", () -> Due.source(mill, "var b;"), 0);
+        // a number that one in the language had becomes one in assembly, with fewer of all
+        mill.forget();
+        Due.is("a unit in the language", () -> Due.source(mill, "var a;var b[3];proc f(){a=b[1];}"), 0);
+        mill.forget();
+        Due.is("one in assembly", () -> Due.assemble(mill, "nop"), 0);
+        Due.is("it is in assembly", () -> mill.unit(0, 0), 0);
+        Due.is("it has no typed signs", () -> mill.typed(0, 0), Due.NO_ELEMENT);
+        Due.is("its sections", () -> mill.unit(0, 1), 1);
+        Due.is("no second section", () -> mill.section(0, 1, 0), Due.NO_ELEMENT);
+        Due.is("no byte of it", () -> mill.byteOf(0, 1, 0), Due.NO_ELEMENT);
+        Due.is("no name of it", () -> mill.byteOf(0, 1, -1), Due.NO_ELEMENT);
+        Due.is("no label", () -> mill.label(0, 0, 0), Due.NO_ELEMENT);
+        Due.is("no relocation", () -> mill.relocation(0, 0, 0), Due.NO_ELEMENT);
+        // the unit of link()'s fault is not that of the next one
+        Due.is("link() without main", () -> mill.link(0, 512), -1);
+        Due.is("its unit", () -> mill.fault(2), 6);
+        Due.is("a fault of source()", () -> Due.source(mill, "?"), -1);
+        Due.is("no unit", () -> mill.fault(2), -1);
+        Due.is("link() without main", () -> mill.link(0, 512), -1);
+        Due.is("a unit without fault", () -> Due.assemble(mill, "nop"), 1);
+        Due.is("no unit of a fault", () -> mill.fault(2), -1);
+        Due.is("no line of a fault", () -> mill.fault(1), -1);
+        Due.is("no kind of a fault", () -> mill.fault(0), 0);
     }
 
     /** The signs behind end() don't count, whatever stood there. */
@@ -182,6 +219,14 @@ public final class ToolMillEdgesLanguage {
 
     private static void tokens() {
         fine("proc f(){x=1==1;x=1!=1;x=1<1;x=1<=1;x=1<<1;x=1>>1;x=1+1-1*1/1%1&1|1^1;x=!1;x=~1;x=-1;a[1]=1;}");
+        at("proc f(){x=1==@", 1);
+        at("proc f(){x=1!=@", 1);
+        at("proc f(){x=1<=@", 1);
+        at("proc f(){x=1<<@", 1);
+        at("proc f(){x=1>>@", 1);
+        at("proc f(){x=1<@", 1);
+        at("proc f(){x=1@>", 1);
+        at("proc f(){x@==", 1);
         at("proc f(){x=1<<@=2;}", 1);
         at("proc f(){x=1< @< 2;}", 1);
         at("proc f(){x=1<<@< 2;}", 1);

@@ -74,6 +74,10 @@ public final class ToolMillEdgesLines {
         words(".ifsame $?\\x,$?\\x\nbreak 1\n.endif", "break 1");
         words(".ifsame ab,a\nbreak 1\n.else\nbreak 2\n.endif", "break 2");
         words(".ifsame a,ab\nbreak 1\n.else\nbreak 2\n.endif", "break 2");
+        // what stood in the line ahead doesn't matter
+        words(".byte 1,2,3,4" + many(" ", 60) + "\n.ifsame ,\nbreak 1\n.endif", ".word 67305985 / break 1");
+        words(".word 0" + many(" ", 60) + "\n.ifsame a,a\nbreak 1\n.endif\n.if 1\nbreak 2\n.endif", "sll $zero,$zero,0 / break 1 / break 2");
+        fault(".byte 1" + many(",1", 60) + "\n.ifsame a\n.endif", 1, 1);
         fault(".ifsame\n.endif", 1, 0);
         fault(".ifsame a\n.endif", 1, 0);
         fault(".ifsame a#,a\n.endif", 1, 0);
@@ -203,6 +207,17 @@ public final class ToolMillEdgesLines {
         words(n + m + p + "m 10,20,30,40", due);
         words(p + m + n + "p 10", due + " / break 10");
         words(m + n + p + ".rept 1\np 10\n.endr\nnnnnnnnnnnnnnnnn 1,2,3,4", due + " / break 10 / break 10");
+        // arguments of ten macros that are open, more than a text has signs
+        StringBuilder chain = new StringBuilder();
+        for (int i = 1; i < 9; i++) {
+            chain.append(".macro n").append(i).append(" z\nn").append(i + 1).append(" \\z\n.endm\n");
+        }
+        String ys = many("y", 180);
+        chain.append(".macro n9 z\n.ifsame \\z,*\nbreak 5\n.endif\nbreak \\@\n.endm\n.macro n0 a,b\nn1 \\b\n.ifsame \\b,\nbreak 6\n.endif\n.ifsame x,\\b\nbreak 7\n.endif\n.endm\n");
+        String open = chain.toString();
+        words(open.replace("*", "y") + "n0 " + many("x", 2000) + "," + ys, "break 9");
+        words(open.replace("*", "") + "n0 " + many("x", 2000) + "," + ys, "break 9");
+        words(open.replace("*", many("y", 90)) + "n0 " + many("x", 2200) + "," + many("y", 90), "break 5 / break 9");
         // \@ is how many macros were called ahead
         words(".macro m\nbreak \\@\n.endm\nm\nm\nm", "break 0 / break 1 / break 2");
         words(".macro m\nbreak \\@\n.endm\n.macro n\nbreak \\@\nm\nbreak \\@\n.endm\nm\nn\nm", "break 0 / break 1 / break 2 / break 1 / break 3");
@@ -295,6 +310,10 @@ public final class ToolMillEdgesLines {
     private static void tooMuchOfNames() {
         fine(each(".macro n*\n.endm\n", 12));
         fault(each(".macro n*\n.endm\n", 12) + ".macro x\n.endm", 6, 24);
+        fault(each(".macro n*\n.endm\n", 12) + ".macro x a,b,c,d\n.endm", 6, 24);
+        fault(each(".macro n*\n.endm\n", 12) + ".macro x a,b,c,a\n.endm", 1, 24);
+        fault(each(".macro n*\n.endm\n", 12) + ".macro x a,b,c,d,e\n.endm", 1, 24);
+        fine(each(".macro n* a,b,c,d\n.endm\n", 12) + each("n* 1,2,3,4\n", 12));
         fine(each(".data n*\n", 63));
         fine(each(".data n*\n", 63) + ".text\n.data n5");
         fault(each(".data n*\n", 63) + ".data x", 6, 63);
@@ -348,6 +367,15 @@ public final class ToolMillEdgesLines {
                 mill.forget();
                 Due.is("assemble() again of " + Due.shown(wrong), () -> Due.assemble(mill, wrong), -1);
             }
+            Due.assemble(mill, "nop\n.macro m\nbreak \\@\n.endm\njr $ra\nm\n");
+            Due.same("words of jr ahead", Due.listing(mill, 0, 0), "jr $ra\nsll $zero,$zero,0\nbreak 0\n");
+            mill.forget();
+            Due.assemble(mill, ".macro nop\nbreak 9\n.endm\n.macro a\n.endm\nnop\nnop\nx: 1: nop");
+            mill.forget();
+            Due.is("assemble() of what is no macro any more", () -> Due.assemble(mill, "nop\nnop\njr $ra\n.macro m nop,a\n.endm\nm 1,2"), 0);
+            Due.same("its words, and the slot is filled", Due.listing(mill, 0, 0), "sll $zero,$zero,0\njr $ra\nsll $zero,$zero,0\n");
+            mill.forget();
+            Due.is("a is no operation any more", () -> Due.assemble(mill, "a"), -1);
             Due.assemble(mill, "nop\n.macro m\nbreak \\@\n.endm\njr $ra\nm\n");
             Due.same("words behind all that", Due.listing(mill, 0, 0), "jr $ra\nsll $zero,$zero,0\nbreak 0\n");
             mill.forget();

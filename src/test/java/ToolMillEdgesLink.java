@@ -227,6 +227,14 @@ public final class ToolMillEdgesLink {
         mended("la $t0,main-100001", 4, "addiu $t0,$t0,-1");
         mended("la $t0,main-132769", 0, "lui $t0,65535");
         mended("la $t0,main+0x7ffef960", 0, "lui $t0,32769");
+        mended("la $t1,main", 0, "lui $t1,2");
+        mended("la $t1,main", 4, "addiu $t1,$t1,-31072");
+        mended("la $ra,main-1", 4, "addiu $ra,$ra,-31073");
+        mended("sh $t1,main", 4, "sh $t1,-31072($at)");
+        mended("lui $ra,%hi(main)", 0, "lui $ra,2");
+        mended("beq $s1,$t1,x\n.text q\nx: nop", 0, "beq $s1,$t1,1");
+        mended("bgezal $ra,x\n.text q\nx: nop", 0, "bgezal $ra,1");
+        mended("bne $ra,$ra,x-8\n.text q\nx: nop", 0, "bne $ra,$ra,-1");
         mended("j main", 0, "j 25000");
         mended("jal main+8", 0, "jal 25002");
         mended("j main-100004", 0, "j 67108863");

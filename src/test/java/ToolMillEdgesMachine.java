@@ -95,6 +95,35 @@ public final class ToolMillEdgesMachine {
         leaves("li $t0,9\nmtlo $t0\nmflo $zero\nmove $a0,$zero", 0);
     }
 
+    /** Each register as each operand. */
+    private static void registers() {
+        for (int r = 1; r < 32; r++) {
+            String name = "$" + r;
+            String set = ".noreorder\nli " + name + ",21845\n";
+            leaves(set + "addu $a0," + name + ",$zero", 21845);
+            leaves(set + "addu $a0,$zero," + name, 21845);
+            leaves(set + "addiu $a0," + name + ",0", 21845);
+            leaves(set + "sll $a0," + name + ",0", 21845);
+            leaves(set + "srlv $a0," + name + ",$zero", 21845);
+            leaves(set + "mthi " + name + "\nmfhi " + name + "\nmove $a0," + name, 21845);
+            leaves(set + "mtlo " + name + "\nmflo " + name + "\nmove $a0," + name, 21845);
+            leaves("li $s0,7\nli $s1,1\naddu " + name + ",$s0,$zero\nmove $a0," + name, 7);
+            leaves("li $s0,7\nori " + name + ",$s0,8\nmove $a0," + name, 15);
+            leaves("lui " + name + ",3\nmove $a0," + name, 3 << 16);
+            leaves("li $s0,7\nsra " + name + ",$s0,1\nmove $a0," + name, 3);
+            if (r != 29) {
+                leaves("li $s0,9\nsw $s0,-4($sp)\nlw " + name + ",-4($sp)\nmove $a0," + name, 9);
+                leaves(set + "sw " + name + ",-4($sp)\nlw $a0,-4($sp)", 21845);
+                leaves("li $t0,9\nsw $t0,-8($sp)\naddiu " + name + ",$sp,-4\nlw $a0,-4(" + name + ")", 9);
+            }
+            int k = r;
+            Due.is("register(" + r + ")", () -> {
+                linked("li " + name + ",12345\nbreak 0").run(20000);
+                return SHARED.register(k);
+            }, 12345);
+        }
+    }
+
     private static void branches() {
         String[] ones = {"blez", "bgtz", "bltz", "bgez", "bltzal", "bgezal"};
         for (int s : VALUES) {
@@ -137,6 +166,10 @@ public final class ToolMillEdgesMachine {
         leaves("li $t0,0x81828384\nsw $t0,-4($sp)\nlh $a0,-2($sp)", (short) 0x8182);
         leaves("li $t0,0x81828384\nsw $t0,-4($sp)\nlhu $a0,-2($sp)", 0x8182);
         leaves("li $t0,0x81828384\nsw $t0,-4($sp)\nlw $a0,-4($sp)", 0x81828384);
+        leaves("li $t0,0x8183ff85\nsw $t0,-4($sp)\nlhu $a0,-2($sp)", 0x8183);
+        leaves("li $t0,0x8183ff85\nsw $t0,-4($sp)\nlhu $a0,-4($sp)", 0xFF85);
+        leaves("li $t0,0x8183ff85\nsw $t0,-4($sp)\nlh $a0,-2($sp)", (short) 0x8183);
+        leaves("li $t0,0x8183ff85\nsw $t0,-4($sp)\nlbu $a0,-4($sp)", 0x85);
         leaves("li $t0,0x01020304\nsw $t0,-4($sp)\nlb $a0,-4($sp)", 4);
         for (int k = 0; k < 4; k++) {
             int shift = 8 * k;
@@ -425,6 +458,7 @@ public final class ToolMillEdgesMachine {
     public static void main(String[] args) {
         arithmetic();
         halves();
+        registers();
         branches();
         memory();
         addresses();

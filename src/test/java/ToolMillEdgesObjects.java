@@ -189,6 +189,14 @@ public final class ToolMillEdgesObjects {
 
     private static void relocations() {
         Due.uses("nop", "");
+        Due.uses("x: b x\n.word abcdefghijklmnop,z\nb x\nb y+4", "0 8 0 -1 0 1 abcdefghijklmnop / 0 12 0 -1 0 1 z / 0 24 4 -1 4 3 y / ");
+        Due.words("lui $t1,%hi(x)", "lui $t1,0");
+        Due.words("addiu $t1,$t2,%lo(x)", "addiu $t1,$t2,0");
+        Due.words("lw $t1,%lo(x+5)($t2)", "lw $t1,0($t2)");
+        Due.words("sw $t1,x+5", "lui $at,0 / sw $t1,0($at)");
+        Due.words("jal x+8", "jal 0 / " + NOP);
+        Due.words("beq $t1,$t2,x+8", "beq $t1,$t2,0 / " + NOP);
+        Due.words(".word x+5", NOP);
         Due.uses(".word x,5,y-1", "0 0 0 -1 0 0 x / 0 8 0 -1 -1 0 y / ");
         Due.uses("x: .word x+4", "0 0 0 0 4 0  / ");
         Due.uses(".space 8\nx: .word 0\n.data\n.word x,x-100", "1 0 0 0 8 3  / 1 4 0 0 -92 3  / ");

@@ -205,10 +205,10 @@ public final class ToolMillRefused {
 
     /** What link(), the machine and its outputs refuse once something is linked at 400 with 600 bytes. */
     private void ofLinked(int outputs) {
-        for (int base : new int[] {-4, 2, 401, 200000004, BEFORE, FAR}) {
+        for (int base : new int[] {-4, 1, 2, 3, 401, 199999999, 200000001, 200000004, BEFORE, FAR}) {
             refused("link(" + base + ", 512)", m -> m.link(base, 512), Due.ILLEGAL_ARGUMENT);
         }
-        for (int memory : new int[] {508, 511, 514, 65537, 65540, 0, -512, BEFORE, FAR}) {
+        for (int memory : new int[] {508, 511, 513, 514, 515, 65535, 65537, 65540, 0, -512, BEFORE, FAR}) {
             refused("link(0, " + memory + ")", m -> m.link(0, memory), Due.ILLEGAL_ARGUMENT);
         }
         for (int what : new int[] {-1, 11, FAR, BEFORE}) {
