@@ -104,7 +104,8 @@ public final class ToolMillEdgesLanguage {
         String language = "proc f(abcdefgh,b){var a[200];#x y\na[b]=2147483647<<12+abcdefgh==in()*-g[b];if(a[0]<=b){while(1){out(!b);}}else{return ~b;}}var g[12];";
         String assembly = ".macro m a,b\nli $t0,\\a+0x12ab\n.endm\nabcdefghijklmnop: m 5,6 # x\n1: b 1b\n.if 1\nlw $t0,%lo(abcdefghijklmnop)($sp)\n.endif\n.rept 2\n.word 4294967295,1f\n.endr\n"
             + "1:\n.ifsame ab , ab\n.byte 255\n.endif\n.noreorder\n.want x,12";
-        for (String text : new String[] {language, assembly}) {
+        String wrong = "proc f(){x=99999999999;abcdefghijk=2147483648==y;}";
+        for (String text : new String[] {language, assembly, wrong}) {
             ToolMill mill = new ToolMill();
             for (int n = text.length(); n >= 0; n--) {
                 ToolMill other = new ToolMill();

@@ -76,6 +76,7 @@ public final class ToolMillEdgesLines {
         words(".ifsame a,ab\nbreak 1\n.else\nbreak 2\n.endif", "break 2");
         // what stood in the line ahead doesn't matter
         words(".byte 1,2,3,4" + many(" ", 60) + "\n.ifsame ,\nbreak 1\n.endif", ".word 67305985 / break 1");
+        words("nop" + many(" ", 60) + "\n.ifsame ,\nbreak 1\n.endif", "sll $zero,$zero,0 / break 1");
         words(".word 0" + many(" ", 60) + "\n.ifsame a,a\nbreak 1\n.endif\n.if 1\nbreak 2\n.endif", "sll $zero,$zero,0 / break 1 / break 2");
         fault(".byte 1" + many(",1", 60) + "\n.ifsame a\n.endif", 1, 1);
         fault(".ifsame\n.endif", 1, 0);
@@ -136,6 +137,8 @@ public final class ToolMillEdgesLines {
         words(".macro m abcdefgh,abcdefgh1,abcdefgh2,bbcdefgh2\nbreak \\abcdefgh2\nbreak \\bbcdefgh2\nbreak \\abcdefgh\nbreak \\abcdefgh1\n.endm\nm 1,2,3,4",
             "break 3 / break 4 / break 1 / break 2");
         fault(".macro m abcdefgh1,abcdefgh2,abcdefgh1\n.endm", 1, 0);
+        fault(".macro m abcdefgh1,abcdefgh1\n.endm", 1, 0);
+        fault(".macro m abcdefghijklmnop,abcdefghijklmnop\n.endm", 1, 0);
         words(".macro abcdefgh1\nbreak 1\n.endm\n.macro abcdefgh2\nbreak 2\n.endm\n.macro bbcdefgh2\nbreak 3\n.endm\nabcdefgh2\nbbcdefgh2\nabcdefgh1", "break 2 / break 3 / break 1");
         fault(".macro m 1\n.endm", 1, 0);
         fault("x: .macro m\n.endm", 1, 0);
@@ -207,6 +210,11 @@ public final class ToolMillEdgesLines {
         words(n + m + p + "m 10,20,30,40", due);
         words(p + m + n + "p 10", due + " / break 10");
         words(m + n + p + ".rept 1\np 10\n.endr\nnnnnnnnnnnnnnnnn 1,2,3,4", due + " / break 10 / break 10");
+        // in digits without 0 ahead
+        String counted = ".macro m\nn\\@: .byte 0\n.endm\n.rept 100\nm\n.endr\nm\n.align 2\n";
+        for (int i : new int[] {0, 9, 10, 90, 99, 100}) {
+            Due.uses(counted + ".word n" + i, "0 104 0 0 " + i + " 8  / ");
+        }
         // arguments of ten macros that are open, more than a text has signs
         StringBuilder chain = new StringBuilder();
         for (int i = 1; i < 9; i++) {
@@ -277,6 +285,8 @@ public final class ToolMillEdgesLines {
         String ten = many(".rept 1\n", 10);
         String close = many(".endr\n", 10);
         fine(ten + close);
+        words(ten + "break 1\n" + close + "break 2", "break 1 / break 2");
+        words(many(".rept 2\n", 3) + "break 1\n" + many(".endr\n", 3) + "break 2", many("break 1 / ", 8) + "break 2");
         fault(ten + ".rept 1\n.endr\n" + close, 6, 0);
         fine(ten + ".rept 0\n.endr\n" + close);
         fine(ten + ".if 0\n.rept 1\n.endr\n.endif\n" + close);
@@ -345,6 +355,7 @@ public final class ToolMillEdgesLines {
         fault(constants + ".word x\n.set x,1", 6, 9);
         fine(constants.replace(".rept 2\n", ".rept 1\n") + ".globl x\n.set x,1\n.set sll,1");
         fault(globals + ".set x,1\n.globl x", 6, 9);
+        fine(".rept 8\n.rept 100\n.globl sll\n.kind x,1\n.set srl,1\n.endr\n.endr");
         fault(globals + "sll: .kind sll,1", 6, 8);
     }
 

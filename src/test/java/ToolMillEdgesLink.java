@@ -205,6 +205,36 @@ public final class ToolMillEdgesLink {
         Due.is("address behind an odd end", () -> bytes.section(6, 1, 3), 20);
     }
 
+    /** Six units of 64 sections, all of them reached, one by the other. */
+    private static void allSections() {
+        String[] texts = new String[6];
+        for (int u = 0; u < 6; u++) {
+            StringBuilder text = new StringBuilder(".globl u" + u + "\n" + (u == 0 ? MAIN + "jr $ra\n" : "") + "u" + u + ": .word s0\n");
+            for (int i = 0; i < 63; i++) {
+                String next = i < 62 ? "s" + (i + 1) : u < 5 ? "u" + (u + 1) : "_div";
+                text.append(i % 2 == 0 ? ".data s" : ".text s").append(i).append("\ns").append(i).append(": .word ").append(next).append('\n');
+            }
+            texts[u] = text.toString();
+        }
+        ToolMill mill = mill(texts);
+        linked(mill, 0, 65536, 6 * 64 * 4 + 8 + 20 + 12);
+        int text = 0;
+        int data = 6 * 32 * 4 + 8 + 20 + 12;
+        for (int u = 0; u < 6; u++) {
+            for (int i = 0; i < 64; i++) {
+                int unit = u;
+                int section = i;
+                boolean isData = i % 2 == 1;
+                Due.is("address of section " + i + " of unit " + u, () -> mill.section(unit, section, 3), isData ? data : text);
+                data += isData ? 4 : 0;
+                text += isData ? 0 : u == 0 && i == 0 ? 12 : 4;
+            }
+        }
+        Due.is("_start", () -> mill.section(6, 1, 3), 6 * 32 * 4 + 8);
+        Due.is("_traps", () -> mill.section(6, 2, 3), 6 * 32 * 4 + 8 + 20);
+        Due.is("the last word", () -> mill.word(mill.section(5, 63, 3)), 6 * 32 * 4 + 8 + 20);
+    }
+
     private static void mended(String text, int place, String due) {
         ToolMill mill = mill(MAIN + text);
         int base = 100000;
@@ -277,6 +307,7 @@ public final class ToolMillEdgesLink {
         aims();
         order();
         addresses();
+        allSections();
         mending();
         arguments();
         Due.finish("ToolMillEdgesLink");

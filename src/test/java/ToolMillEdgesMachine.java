@@ -105,8 +105,8 @@ public final class ToolMillEdgesMachine {
             leaves(set + "addiu $a0," + name + ",0", 21845);
             leaves(set + "sll $a0," + name + ",0", 21845);
             leaves(set + "srlv $a0," + name + ",$zero", 21845);
-            leaves(set + "mthi " + name + "\nmfhi " + name + "\nmove $a0," + name, 21845);
-            leaves(set + "mtlo " + name + "\nmflo " + name + "\nmove $a0," + name, 21845);
+            leaves(set + "mthi " + name + "\nli " + name + ",0\nmfhi " + name + "\nmove $a0," + name, 21845);
+            leaves(set + "mtlo " + name + "\nli " + name + ",0\nmflo " + name + "\nmove $a0," + name, 21845);
             leaves("li $s0,7\nli $s1,1\naddu " + name + ",$s0,$zero\nmove $a0," + name, 7);
             leaves("li $s0,7\nori " + name + ",$s0,8\nmove $a0," + name, 15);
             leaves("lui " + name + ",3\nmove $a0," + name, 3 << 16);

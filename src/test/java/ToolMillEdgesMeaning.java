@@ -144,6 +144,7 @@ public final class ToolMillEdgesMeaning {
         // each has parameters and locals of its own, 0 at first
         means(mill("proc f(a){var b;var c;var d[2];return a*10000+b*1000+c*100+d[0]*10+d[1];}proc g(a,b,c,d){var e[4];e[0]=1;e[1]=1;e[2]=1;e[3]=1;}proc main(){g(1,2,3,4);return f(5);}"), 20000, 1, 50000, 11, 2);
         means(mill("proc main(){g(1,2,3,4);return f()+1*(2-3*(4-5*(6-7)));}proc g(a,b,c,d){}proc f(){var b;var c;return b*10+c;}"), 20000, 1, -25, 5, 2);
+        means(mill("proc f(p){var x;x=1+(1+(1+(1+(1+(1+(1+5))))));return x*100+p;}proc main(){return f(3);}"), 20000, 1, 1203, 4, 2);
         means(mill("proc f(p,q){var x;x=1+(1+(1+(1+(1+(1+(1+p))))));return x*1000+p*100+q*10+g(1+(1+(1+(1+(1+(1+q)))))-6);}proc g(n){return n;}proc main(){return f(3,4);}"), 20000, 1, 10344, 5, 3);
         means(mill("proc f(n){var a;var b[3];a=a+n;b[1]=b[1]+a;if(n){f(n-1);}return a*10+b[1];}proc main(){return f(3);}"), 20000, 1, 33, 1 + 4 * 6 + 3, 5);
         means(mill("proc f(a){a=a+1;return a;}proc main(){var a;a=5;f(a);return a;}"), 20000, 1, 5, 6, 2);
