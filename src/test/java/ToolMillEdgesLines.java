@@ -355,7 +355,7 @@ public final class ToolMillEdgesLines {
         fault(constants + ".word x\n.set x,1", 6, 9);
         fine(constants.replace(".rept 2\n", ".rept 1\n") + ".globl x\n.set x,1\n.set sll,1");
         fault(globals + ".set x,1\n.globl x", 6, 9);
-        fine(".rept 8\n.rept 100\n.globl sll\n.kind x,1\n.set srl,1\n.endr\n.endr");
+        fine(".rept 8\n.rept 100\n.globl sll\n.kind x,1\n.set sll,1\n.endr\n.endr");
         fault(globals + "sll: .kind sll,1", 6, 8);
     }
 
