@@ -91,7 +91,7 @@ public final class ToolMillEdgesLink {
         for (int i = 0; i < 5; i++) {
             texts[i] = ".data\n.globl d" + i + "\nd" + i + ": " + fill + (i < 4 ? ".word d" + (i + 1) : "");
         }
-        // 4 + 12288 bytes each but the last, and 8 + 20 of code and 4 + 4
+        // 12288 bytes each, four words between them, 12 of main and 20 of _start
         texts[5] = MAIN + "jr $ra\n.word d0\n";
         int all = 5 * 12288 + 4 * 4 + 12 + 20;
         ToolMill mill = mill(texts);
